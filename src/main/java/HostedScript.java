@@ -620,6 +620,7 @@ public final class HostedScript {
                     : addOperand(GET_ATTRIBUTE, name - FIRST_NAME, 2);
         }
         if (token == CLOSE) {
+            settle(1);
             return closeParenthesis();
         }
         int rank = rankOf(token);
@@ -653,8 +654,10 @@ public final class HostedScript {
     }
 
     private int addOperand(int operation, int part, int tokens) {
-        long element = (long) operation << 32 | part;
-        addCode(element);
+        if (codeCount < CODE_SIZE) {
+            code[codeCount] = (long) operation << 32 | part;
+            codeCount++;
+        }
         cursor += tokens;
         return AFTER_OPERAND;
     }
@@ -674,17 +677,17 @@ public final class HostedScript {
         if (peek(ahead) != OPEN || openCount == MAX_OPEN) {
             return BAD;
         }
-        cursor += ahead + 1;
-        if (peek(0) == CLOSE) {
-            return addOperand(operation, part, 1);
+        if (peek(ahead + 1) == CLOSE) {
+            return addOperand(operation, part, ahead + 2);
         }
         openCount++;
         keepWaiting(operation + 1, part);
+        cursor += ahead + 1;
         return BEFORE_OPERAND;
     }
 
+    /** The operators inside are settled, so a parenthesis is what waits last, if any is open. */
     private int closeParenthesis() {
-        settle(1);
         if (waitingCount == 0) {
             return BAD;
         }
@@ -1003,8 +1006,12 @@ public final class HostedScript {
         switch (kind) {
             case IF_WORD:
             case WHILE_WORD:
-                branch(line);
-                return;
+                int chosen = chosenLine(line);
+                if (chosen != NOWHERE) {
+                    reach(chosen);
+                    return;
+                }
+                break;
             case TRY_WORD:
                 reach(line + 1);
                 return;
@@ -1051,17 +1058,16 @@ public final class HostedScript {
         }
     }
 
-    private void branch(int line) {
+    /** The first line of the block that the condition of an if or while line chooses, or NOWHERE if it chooses none. */
+    private int chosenLine(int line) {
         long condition = pop();
         int otherwise = ofLine(line, LINE_END);
         if (condition != NONE_VALUE && condition != INT_VALUE) {
-            reach(line + 1);
-        } else if (otherwise < lineCount && ofLine(otherwise, LINE_KIND) == ELSE_WORD
-                && ofLine(otherwise, LINE_INDENT) == ofLine(line, LINE_INDENT)) {
-            reach(otherwise + 1);
-        } else {
-            goOn(line);
+            return line + 1;
         }
+        boolean hasElse = otherwise < lineCount && ofLine(otherwise, LINE_KIND) == ELSE_WORD
+                && ofLine(otherwise, LINE_INDENT) == ofLine(line, LINE_INDENT);
+        return hasElse ? otherwise + 1 : NOWHERE;
     }
 
     private void print(long value) {
@@ -1075,7 +1081,7 @@ public final class HostedScript {
 
     private boolean isLocal(int name) {
         int def = calls[(callCount - 1) * CALL_COLUMNS + CALL_DEF];
-        return def != NOWHERE && (ofLine(def, LINE_LOCALS) >> name & 1) == 1;
+        return def != NOWHERE && (lineTable[def * LINE_COLUMNS + LINE_LOCALS] >> name & 1) == 1;
     }
 
     private void setName(int name, long value) {
@@ -1167,27 +1173,21 @@ public final class HostedScript {
         }
     }
 
+    /** The first head of a list that stands behind no other; or that there is none, or no list is left. */
     private int nextMerged() {
         int answer = ALL_MERGED;
         for (int list = 0; list < MERGED_LISTS; list++) {
             int head = merging[list * ORDER_SIZE];
-            if (head >= 0) {
-                if (!standsBehind(head)) {
-                    return head;
-                }
-                answer = STUCK;
+            boolean behind = false;
+            for (int at = 0; at < MERGE_SIZE; at++) {
+                behind |= at % ORDER_SIZE != 0 && merging[at] == head;
             }
+            if (head >= 0 && !behind) {
+                return head;
+            }
+            answer = head >= 0 ? STUCK : answer;
         }
         return answer;
-    }
-
-    private boolean standsBehind(int number) {
-        for (int at = 0; at < MERGE_SIZE; at++) {
-            if (at % ORDER_SIZE != 0 && merging[at] == number) {
-                return true;
-            }
-        }
-        return false;
     }
 
     private void strike(int number) {
@@ -1507,7 +1507,7 @@ public final class HostedScript {
     }
 
     private static int bitOf(long value) {
-        return hasKind(value, OBJECT_VALUE) ? 1 << (int) value : 0;
+        return value >>> 32 == OBJECT_VALUE >>> 32 ? 1 << (int) value : 0;
     }
 
     private static int freeObject(int mask) {
