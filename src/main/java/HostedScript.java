@@ -96,7 +96,8 @@ public final class HostedScript {
     private static final int CODE_SIZE = MAX_TOKENS + HOST_TOKENS;
     private static final int LINES_SIZE = MAX_TOKENS + HOST_LINES;
 
-    // The columns of the table of lines.
+    // The columns of the table of lines. The first letter is what the line sets, makes or defines; the second and third
+    // are a class line's bases or a def line's parameters (-1: none), the second the class of an entry that is set.
     private static final int LINE_KIND = 0;
     private static final int LINE_INDENT = 1;
     private static final int LINE_NUMBER = 2;
@@ -355,7 +356,7 @@ public final class HostedScript {
         return hasKind(value, METHOD_VALUE) ? METHOD_VALUE : value;
     }
 
-    /** A column of a line; no line has it as -1, as the top of the chunk has no parent and no kind. */
+    /** A column of a line; -1 for no line, so that the top of a chunk needs no case of its own. */
     private int ofLine(int line, int column) {
         return line < 0 ? -1 : lineTable[line * LINE_COLUMNS + column];
     }
@@ -1367,7 +1368,7 @@ public final class HostedScript {
             case TIMES:
                 return a * b;
             default:
-                return b == 0 ? 0 : a % b != 0 && a < 0 != b < 0 ? a / b - 1 : a / b;
+                return b == 0 ? 0 : a % b != 0 && (a < 0) != (b < 0) ? a / b - 1 : a / b;
         }
     }
 

@@ -209,6 +209,10 @@ public final class ClassTest {
         s.runs("class G:\n f=1\nclass H(G):\n def f(s):\n  return super.f()\nh=H()\nh.f()", HostedScript.TYPE, 42);
         // The argument first.
         s.runs("class K:\n def f(s):\n  return super.z(1/0)\nk=K()\nk.f()", HostedScript.ZERO, 47);
+        // Calls inside a method leave its receiver as it is.
+        Script u = new Script();
+        u.prints("class A:\n def f(s,x):\n  return x+s.k\nclass B(A):\n def n(s):\n  pass\n def m(s,x):\n  pass\n def f(s,x):\n  b.n()\n  c.m(c)\n"
+            + "  return super.f(x)\nb=B()\nb.k=10\nc=B()\nc.k=20\nd=B()\nd.k=30\nprint d.f(1)+d.f(2)+b.f(3)+c.f(4)", 31 + 32 + 13 + 24);
         Script t = new Script(8, 200, 2);
         t.runs("class A:\n def f(s):\n  return 1\nclass B(A):\n def f(s):\n  return super.f()\nclass C(B):\n def f(s):\n  return super.f()\nb=B()\nc=C()\nprint b.f()\nc.f()",
             HostedScript.DEPTH, 6);

@@ -1,6 +1,7 @@
 /** Promises 1 and 2: the limits of a new object, and how tokens are put. */
 public final class LimitsTest {
     public static void main(String[] args) {
+        constants();
         freshObject();
         objects();
         steps();
@@ -8,6 +9,15 @@ public final class LimitsTest {
         tokensAreCounted();
         tokensAreRefused();
         Script.end();
+    }
+
+    private static void constants() {
+        int[] kinds = {HostedScript.DONE, HostedScript.WRONG, HostedScript.NAME, HostedScript.TYPE, HostedScript.ATTR,
+            HostedScript.ZERO, HostedScript.DEPTH, HostedScript.MEMORY, HostedScript.RAISED, HostedScript.STEPS};
+        for (int at = 0; at < kinds.length; at++) {
+            Script.due("constant " + at, kinds[at], at);
+        }
+        Script.due("REFUSED", HostedScript.REFUSED, -1);
     }
 
     private static void freshObject() {

@@ -96,6 +96,11 @@ public final class RunTest {
         // Each call has its own.
         Script t = new Script();
         t.prints("class A:\n def f(v,n):\n  k=n\n  if n:\n   v.f(n-1)\n  return k*10+n\na=A()\nprint a.f(3)", 33);
+        // A call at the same depth leaves nothing behind, from the first letter to the last.
+        Script w = new Script();
+        w.runs("class A:\n def f(s):\n  a=1\n  z=1\n def g(s):\n  if 0:\n   a=1\n  return a\n def h(s):\n  if 0:\n   z=1\n  return z\na=A()", HostedScript.DONE, 0);
+        w.runs("a.f()\na.g()", HostedScript.NAME, 8);
+        w.runs("a.f()\na.h()", HostedScript.NAME, 12);
         // Lines of a class block set entries, but its names are global.
         new Script().runs("class A:\n x=1\n y=x", HostedScript.NAME, 3);
         Script u = new Script();

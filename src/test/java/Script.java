@@ -95,6 +95,9 @@ final class Script {
                 four[k] = tokens.get(at + k);
             }
             answer = host.put(four[0], four[1], four[2], four[3]);
+            if (answer == HostedScript.REFUSED) {
+                throw new IllegalStateException("too much text for one object");
+            }
         }
         return answer;
     }

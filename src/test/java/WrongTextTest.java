@@ -139,7 +139,6 @@ public final class WrongTextTest {
 
     private static void length() {
         String forty = "a=1" + "+1".repeat(18);
-
         Script s = new Script();
         Script.due("39 tokens", s.put(forty), 39);
         Script.due("run of 39 tokens", s.host.run(), HostedScript.DONE);
@@ -245,6 +244,8 @@ public final class WrongTextTest {
         }
         wrong("class A:\n def f(s):\n  class B:\n   pass", 3);
         wrong("class A:\n def f(s):\n  if 1:\n   class B:\n    pass", 4);
+        wrong("if 1:\n class A:\n  def f(s):\n   class B:\n    pass", 4);
+        wrong("while 0:\n if 1:\n  class A:\n   def f(s):\n    if 1:\n     class B:\n      pass", 6);
         wrong("class A:\n def f(s):\n  def g(s):\n   pass", 3);
         wrong("class A:\n def f(s):\n  if 1:\n   def g(s):\n    pass", 4);
         wrong("def f(s):\n pass", 1);
