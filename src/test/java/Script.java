@@ -12,6 +12,8 @@ final class Script {
     private static final String[] SIGNS = {"(", ")", ",", ".", ":", "=", "==", "<", "+", "-", "*", "/"};
     private static int checks = 0;
     private static int wrong = 0;
+    private static int sentences = 0;
+    private static String sentence = "";
 
     final HostedScript host;
 
@@ -111,6 +113,11 @@ final class Script {
         return host.run();
     }
 
+    int run(Integer... tokens) {
+        putTokens(Arrays.asList(tokens));
+        return host.run();
+    }
+
     /** Runs a text that must end so, at that line. */
     void runs(String text, int answer, int place) {
         int got = run(text);
@@ -129,6 +136,24 @@ final class Script {
                 due("print " + at + " of <" + text + ">", host.printed(back), values[at]);
             }
         }
+    }
+
+    /** A new object must find this line of the text wrong, as the first, and keep nothing of it. */
+    static void isWrong(String text, int line) {
+        Script s = new Script();
+        s.runs(text, HostedScript.WRONG, line);
+        due("lines after <" + text + ">", s.host.lines(), 0);
+        due("tokens after <" + text + ">", s.host.put(0, 0, 0, 0), 0);
+    }
+
+    /** A new object must keep the text, however its run ends. */
+    static void isRight(String text) {
+        Script s = new Script();
+        int size = s.put(text);
+        int answer = s.host.run();
+        due("<" + text + "> is right", answer != HostedScript.WRONG ? 1 : 0, 1);
+        due("lines of <" + text + ">", s.host.lines(), text.split("\n", -1).length);
+        due("tokens of <" + text + ">", s.host.put(0, 0, 0, 0), size);
     }
 
     /** Calls v.m(arg) by the letters' names. */
@@ -168,17 +193,24 @@ final class Script {
         due("order(" + number + ", " + members.length + ")", host.order(number, members.length), -1);
     }
 
+    /** The answers looked at from now on are due by this sentence of the document. */
+    static void sentence(String words) {
+        sentence = "\"" + words + "\": ";
+        sentences++;
+    }
+
     static void due(String what, long got, long want) {
         checks++;
         if (got != want) {
             wrong++;
-            System.out.println(what.replace("\n", "\\n") + " answered " + got + ", due is " + want);
+            System.out.println(sentence + what.replace("\n", "\\n") + " answered " + got + ", due is " + want);
         }
     }
 
     /** Ends the test, with exit code 1 if an answer was not as due. */
     static void end() {
-        System.out.println(checks + " answers looked at, " + wrong + " not as due");
+        String of = sentences > 0 ? " for " + sentences + " sentences" : "";
+        System.out.println(checks + " answers looked at" + of + ", " + wrong + " not as due");
         if (wrong != 0) {
             System.exit(1);
         }

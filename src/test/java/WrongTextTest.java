@@ -22,97 +22,79 @@ public final class WrongTextTest {
         Script.end();
     }
 
-    /** The text's first wrong line must be this one. */
-    private static void wrong(String text, int line) {
-        Script s = new Script();
-        s.runs(text, HostedScript.WRONG, line);
-        Script.due("lines after <" + text + ">", s.host.lines(), 0);
-        Script.due("tokens after <" + text + ">", s.host.put(0, 0, 0, 0), 0);
-    }
-
-    /** The text must be kept, however its run ends. */
-    private static void right(String text) {
-        Script s = new Script();
-        int size = s.put(text);
-        int answer = s.host.run();
-        Script.due("<" + text + "> is right", answer != HostedScript.WRONG ? 1 : 0, 1);
-        Script.due("lines of <" + text + ">", s.host.lines(), text.split("\n", -1).length);
-        Script.due("tokens of <" + text + ">", s.host.put(0, 0, 0, 0), size);
-    }
-
     private static void forms() {
         for (String text : new String[] {"pass", "print 1", "raise 1", "1", "a", "none", "a=1", "a.b=1", "A.b=1", "if 1:\n pass",
             "if 0:\n pass\nelse:\n pass", "while 0:\n pass", "try:\n pass\nexcept e:\n pass", "class A:\n pass"}) {
-            right(text);
+            Script.isRight(text);
         }
         for (String text : new String[] {"pass 1", "pass pass", "print", "raise", "return", "print print", "print a=1", "print 1:",
             "raise a=1", "if", "if:", "if 1", "if 1 1:", "if a=1:", "if 1:pass", "while", "while:", "while 1", "else", "else:",
             "else 1:", "try", "try 1:", "try::", "except", "except:", "except e:", "except 1:", "except E:", "except e",
             ":", "1:", "a:", "pass:", "print", "class", "def", "super", "none=1", "1=1", "(", ")", ",", ".", "=", "==", "+"}) {
-            wrong(text, 1);
+            Script.isWrong(text, 1);
         }
-        wrong("try:\n pass\nexcept:\n pass", 3);
-        wrong("try:\n pass\nexcept E:\n pass", 3);
-        wrong("try:\n pass\nexcept e e:\n pass", 3);
-        wrong("try:\n pass\nexcept e\n pass", 3);
-        wrong("if 1:\n pass\nelse 1:\n pass", 3);
-        wrong("if 1:\n pass\nelse\n pass", 3);
+        Script.isWrong("try:\n pass\nexcept:\n pass", 3);
+        Script.isWrong("try:\n pass\nexcept E:\n pass", 3);
+        Script.isWrong("try:\n pass\nexcept e e:\n pass", 3);
+        Script.isWrong("try:\n pass\nexcept e\n pass", 3);
+        Script.isWrong("if 1:\n pass\nelse 1:\n pass", 3);
+        Script.isWrong("if 1:\n pass\nelse\n pass", 3);
     }
 
     private static void expressions() {
         for (String text : new String[] {"1+2-3*4/5", "1<2", "1==2", "(1<2)<3", "1==(2==3)", "a.b", "a.b.c", "a.b()", "a.b(1)",
             "a.b(1).c", "a.b().c(2).d", "A()", "A(1)", "A.b", "A.b.c", "A.b.c(1)", "A().b", "A(1).b(2)", "1.b", "none.b(none)",
             "(1).b", "(a)", "((a))", "a.b(c<d)", "A(1<2)", "1+(2<3)", "a*b.c(1)/d"}) {
-            right(text);
+            Script.isRight(text);
         }
         for (String text : new String[] {"1 2", "a b", "1+", "+1", "-1", "1+*2", "1--1", "*1", "1<2<3", "1==2==3", "1<2==3",
             "1==2<3", "1<2+3<4", "()", "(1", "1)", "(1))", "((1)", "a(", "a()", "a(1)", "1(2)", "none()", "a.", "a.1", "a.B", "a.b.",
             "a.b(", "a.b(1", "a.b(1,2)", "a.b(,)", "a.b()()", "a.b(1)(2)", "(a)(1)", "A", "A.", "A.1", "A.B", "A.b()", "A.b(1)",
             "A(1", "A(", "A(1,2)", "A()()", "A A", "(A)", "a.b=", "1,2", "a:b", "if+1", "1+if", "print+1", "pass+1", "a.if", "a.none",
             ".b", "1.", "(.b)", "a..b", "none none", "1<", "<1", "==1", "1==", "(1<)2", "(1+)2", "a.b(1+)"}) {
-            wrong(text, 1);
+            Script.isWrong(text, 1);
         }
     }
 
     private static void settings() {
         for (String text : new String[] {"a=1", "a=b", "a=1<2", "a.b=1", "a.b.c=1", "a.b().c=1", "a.b(1).c=1", "(a).b=1", "(a+b).c=1",
             "(1<2).c=1", "1.a=1", "none.a=1", "A.b=1", "A.b.c=1", "A().b=1", "A(1).b=1", "(A.b).c=1", "(A()).c=a.b", "a.b=A.b"}) {
-            right(text);
+            Script.isRight(text);
         }
         for (String text : new String[] {"a=", "=1", "a==", "a=1=2", "a=b=2", "a.b=1=2", "a.b=c.d=1", "1=a", "A=1", "A()=1", "(a)=1",
             "(a.b)=1", "a.b()=1", "a.b(1)=1", "a+b=1", "a+b.c=1", "b*c.d=1", "a<b.c=1", "a==b.c=1", "a b=1", "a b.c=1", ".b=1", "a.=1",
             "a.1=1", "a.B=1", "A.B=1", "(a.b=1", "(a.b).=1", "(a=1)", "a.b(c=1)", "A.b(1).c=1", "A.b().c=1", "a.b+=1", "if a=1:",
             "A b=1", "a.b.=1", "a..b=1", "(a).b).c=1", "(a.b.c=1", "a,b=1", "print.a=1", "a.b=", "A.b="}) {
-            wrong(text, 1);
+            Script.isWrong(text, 1);
         }
-        wrong("class A:\n def f(s):\n  super.a=1", 3);
-        wrong("class A:\n def f(s):\n  super=1", 3);
-        right("class A:\n def f(s):\n  super.a().b=1");
-        right("class A:\n def f(s):\n  super.a(1).b.c=1");
+        Script.isWrong("class A:\n def f(s):\n  super.a=1", 3);
+        Script.isWrong("class A:\n def f(s):\n  super=1", 3);
+        Script.isRight("class A:\n def f(s):\n  super.a().b=1");
+        Script.isRight("class A:\n def f(s):\n  super.a(1).b.c=1");
         for (String text : new String[] {"super", "super.a", "super.a+1", "super(1)", "super.A()", "super.a(", "super.a(1",
             "super.a()()", "a.super()", "super.a(1,2)", "super.1()"}) {
-            wrong("class A:\n def f(s):\n  " + text, 3);
+            Script.isWrong("class A:\n def f(s):\n  " + text, 3);
         }
-        right("class A:\n def f(s):\n  super.a()+super.b(1).c(super.d())");
+        Script.isRight("class A:\n def f(s):\n  super.a()+super.b(1).c(super.d())");
     }
 
     private static void headers() {
         for (String text : new String[] {"class A:", "class A(X):", "class A(X,A):", "class A(A,A):"}) {
-            right(text + "\n pass");
+            Script.isRight(text + "\n pass");
         }
         for (String text : new String[] {"class a:", "class :", "class A", "class A B:", "class A():", "class A(:", "class A(x):",
             "class A(1):", "class A(X:", "class A(X,):", "class A(,X):", "class A(X X):", "class A(X,x):", "class A(X,Y", "class A(X,Y):1",
             "class A(X,Y,Z):", "class A(X):1", "class A::", "class 1:", "class A(X)", "class A(X,Y)", "class A X:", "class A)X):",
             "class A(X(:", "class A(X.Y):", "class A(X,Y(:", "class A(X),Y):"}) {
-            wrong(text + "\n pass", 1);
+            Script.isWrong(text + "\n pass", 1);
         }
         for (String text : new String[] {"def f(a):", "def f(a,b):", "def a(a):", "def a(b,a):"}) {
-            right("class A:\n " + text + "\n  pass");
+            Script.isRight("class A:\n " + text + "\n  pass");
         }
         for (String text : new String[] {"def f:", "def f():", "def f(a)", "def f(a,b)", "def f(a,a):", "def F(a):", "def f(A):",
             "def f(1):", "def f(a,):", "def f(,a):", "def f(a b):", "def f(a,B):", "def f(a,b,c):", "def (a):", "def f a:", "def f(a:",
             "def f(a):1", "def f)a):", "def f(a(:", "def f(a.b):", "def 1(a):", "def f(a,b):1"}) {
-            wrong("class A:\n " + text + "\n  pass", 2);
+            Script.isWrong("class A:\n " + text + "\n  pass", 2);
         }
     }
 
@@ -145,141 +127,141 @@ public final class WrongTextTest {
         Script.due("sum of 19 ones", s.variable('a'), Script.number(19));
         s.runs("\nprint 1" + "+1".repeat(19), HostedScript.DONE, 0);
         Script.due("sum of 20 ones in 40 tokens", s.host.printed(0), 20);
-        wrong("print 1+1\nprint " + "(1)" + "+1".repeat(18) + "+A.b", 2);
-        wrong("pass\na=1" + "+1".repeat(19), 2);
-        wrong("pass\nprint 1" + "+1".repeat(20), 2);
-        wrong("a=1" + "+1".repeat(60), 1);
+        Script.isWrong("print 1+1\nprint " + "(1)" + "+1".repeat(18) + "+A.b", 2);
+        Script.isWrong("pass\na=1" + "+1".repeat(19), 2);
+        Script.isWrong("pass\nprint 1" + "+1".repeat(20), 2);
+        Script.isWrong("a=1" + "+1".repeat(60), 1);
     }
 
     private static void parentheses() {
-        right("((((1))))");
-        right("((((1))))+((((1))))");
-        right("a.b(a.b(a.b(a.b(1))))");
-        right("A(A(A(A())))");
-        right("(((A())))");
-        right("(((a.b())))");
-        right("class A:\n def f(s):\n  (((super.f())))");
-        wrong("(((((1)))))", 1);
-        wrong("a.b(a.b(a.b(a.b(a.b(1)))))", 1);
-        wrong("a.b(a.b(a.b(a.b(a.b()))))", 1);
-        wrong("A(A(A(A(A()))))", 1);
-        wrong("((((A()))))", 1);
-        wrong("((((a.b()))))", 1);
-        wrong("((((a.b(1)))))", 1);
-        wrong("((((a)))).b=(((((1)))))", 1);
-        wrong("class A:\n def f(s):\n  ((((super.f()))))", 3);
-        wrong("class A:\n def f(s):\n  super.f(super.f(super.f(super.f(super.f()))))", 3);
+        Script.isRight("((((1))))");
+        Script.isRight("((((1))))+((((1))))");
+        Script.isRight("a.b(a.b(a.b(a.b(1))))");
+        Script.isRight("A(A(A(A())))");
+        Script.isRight("(((A())))");
+        Script.isRight("(((a.b())))");
+        Script.isRight("class A:\n def f(s):\n  (((super.f())))");
+        Script.isWrong("(((((1)))))", 1);
+        Script.isWrong("a.b(a.b(a.b(a.b(a.b(1)))))", 1);
+        Script.isWrong("a.b(a.b(a.b(a.b(a.b()))))", 1);
+        Script.isWrong("A(A(A(A(A()))))", 1);
+        Script.isWrong("((((A()))))", 1);
+        Script.isWrong("((((a.b()))))", 1);
+        Script.isWrong("((((a.b(1)))))", 1);
+        Script.isWrong("((((a)))).b=(((((1)))))", 1);
+        Script.isWrong("class A:\n def f(s):\n  ((((super.f()))))", 3);
+        Script.isWrong("class A:\n def f(s):\n  super.f(super.f(super.f(super.f(super.f()))))", 3);
     }
 
     private static void indents() {
-        right("\n\npass\n    \npass");
-        wrong("\n pass", 2);
-        wrong("\n        \n pass", 3);
-        wrong("pass\n pass", 2);
-        wrong("if 1:\npass", 2);
-        wrong("if 1:\n\n\npass", 4);
-        wrong("if 1:\n if 1:\n pass", 3);
-        wrong("if 1:\n if 1:\npass", 3);
-        wrong("if 1:\n  pass\n pass", 3);
-        wrong("if 1:\n  pass\n   pass", 3);
-        wrong("if 1:\n  pass\n\n        \n pass", 5);
-        wrong("if 1:\n if 1:\n    pass\n  pass", 4);
-        wrong("if 1:\n  if 1:\n    pass\n   pass", 4);
-        right("if 1:\n        pass");
-        right("if 1:\n  pass\nif 1:\n    pass\n    pass\npass");
-        right("if 1:\n  if 1:\n     pass\n  pass\npass");
-        right("if 1:\n  pass\n\n        \n  pass");
-        right("if 1:\n if 1:\n  if 1:\n   if 1:\n    if 1:\n     if 1:\n      if 1:\n       if 1:\n        pass\npass");
+        Script.isRight("\n\npass\n    \npass");
+        Script.isWrong("\n pass", 2);
+        Script.isWrong("\n        \n pass", 3);
+        Script.isWrong("pass\n pass", 2);
+        Script.isWrong("if 1:\npass", 2);
+        Script.isWrong("if 1:\n\n\npass", 4);
+        Script.isWrong("if 1:\n if 1:\n pass", 3);
+        Script.isWrong("if 1:\n if 1:\npass", 3);
+        Script.isWrong("if 1:\n  pass\n pass", 3);
+        Script.isWrong("if 1:\n  pass\n   pass", 3);
+        Script.isWrong("if 1:\n  pass\n\n        \n pass", 5);
+        Script.isWrong("if 1:\n if 1:\n    pass\n  pass", 4);
+        Script.isWrong("if 1:\n  if 1:\n    pass\n   pass", 4);
+        Script.isRight("if 1:\n        pass");
+        Script.isRight("if 1:\n  pass\nif 1:\n    pass\n    pass\npass");
+        Script.isRight("if 1:\n  if 1:\n     pass\n  pass\npass");
+        Script.isRight("if 1:\n  pass\n\n        \n  pass");
+        Script.isRight("if 1:\n if 1:\n  if 1:\n   if 1:\n    if 1:\n     if 1:\n      if 1:\n       if 1:\n        pass\npass");
     }
 
     private static void elseAndExcept() {
-        right("if 1:\n if 1:\n  pass\n else:\n  pass\nelse:\n pass");
-        right("if 1:\n if 1:\n  pass\nelse:\n pass");
-        right("if 1:\n  pass\n\nelse:\n    pass");
-        wrong("pass\nelse:\n pass", 2);
-        wrong("if 1:\nelse:\n pass", 2);
-        wrong("if 1:\n else:\n  pass", 2);
-        wrong("if 1:\n pass\n else:\n  pass", 3);
-        wrong("if 1:\n pass\npass\nelse:\n pass", 4);
-        wrong("if 1:\n pass\nelse:\n pass\nelse:\n pass", 5);
-        wrong("while 1:\n pass\nelse:\n pass", 3);
-        wrong("class A:\n pass\nelse:\n pass", 3);
-        wrong("try:\n pass\nelse:\n pass", 3);
-        wrong("try:\n pass\nexcept e:\n pass\nelse:\n pass", 5);
-        wrong("if 1:\n while 1:\n  pass\n else:\n  pass", 4);
-        wrong("if 1:\n    pass\n  else:\n    pass", 3);
-        wrong("pass\nexcept e:\n pass", 2);
-        wrong("try:\nexcept e:\n pass", 2);
-        wrong("try:\n except e:\n  pass", 2);
-        wrong("if 1:\n pass\nexcept e:\n pass", 3);
-        wrong("try:\n pass\nexcept e:\n pass\nexcept e:\n pass", 5);
-        wrong("try:\n pass\n except e:\n  pass", 3);
-        wrong("try:\n if 1:\n  pass\n except e:\n  pass", 4);
+        Script.isRight("if 1:\n if 1:\n  pass\n else:\n  pass\nelse:\n pass");
+        Script.isRight("if 1:\n if 1:\n  pass\nelse:\n pass");
+        Script.isRight("if 1:\n  pass\n\nelse:\n    pass");
+        Script.isWrong("pass\nelse:\n pass", 2);
+        Script.isWrong("if 1:\nelse:\n pass", 2);
+        Script.isWrong("if 1:\n else:\n  pass", 2);
+        Script.isWrong("if 1:\n pass\n else:\n  pass", 3);
+        Script.isWrong("if 1:\n pass\npass\nelse:\n pass", 4);
+        Script.isWrong("if 1:\n pass\nelse:\n pass\nelse:\n pass", 5);
+        Script.isWrong("while 1:\n pass\nelse:\n pass", 3);
+        Script.isWrong("class A:\n pass\nelse:\n pass", 3);
+        Script.isWrong("try:\n pass\nelse:\n pass", 3);
+        Script.isWrong("try:\n pass\nexcept e:\n pass\nelse:\n pass", 5);
+        Script.isWrong("if 1:\n while 1:\n  pass\n else:\n  pass", 4);
+        Script.isWrong("if 1:\n    pass\n  else:\n    pass", 3);
+        Script.isWrong("pass\nexcept e:\n pass", 2);
+        Script.isWrong("try:\nexcept e:\n pass", 2);
+        Script.isWrong("try:\n except e:\n  pass", 2);
+        Script.isWrong("if 1:\n pass\nexcept e:\n pass", 3);
+        Script.isWrong("try:\n pass\nexcept e:\n pass\nexcept e:\n pass", 5);
+        Script.isWrong("try:\n pass\n except e:\n  pass", 3);
+        Script.isWrong("try:\n if 1:\n  pass\n except e:\n  pass", 4);
     }
 
     private static void tries() {
-        right("try:\n pass\n\n    \nexcept e:\n pass");
-        right("try:\n try:\n  pass\n except e:\n  pass\nexcept e:\n pass");
-        right("try:\n if 1:\n  pass\n pass\nexcept e:\n pass");
-        wrong("try:\n pass\npass", 3);
-        wrong("try:\n pass\nif 1:\n pass", 3);
-        wrong("try:\n pass\ntry:\n pass\nexcept e:\n pass", 3);
-        wrong("if 1:\n try:\n  pass\n pass", 4);
-        wrong("if 1:\n try:\n  pass\npass", 4);
-        wrong("if 1:\n try:\n  pass\nelse:\n pass", 4);
-        wrong("if 1:\n try:\n  pass\nexcept e:\n pass", 4);
-        wrong("try:\n try:\n  pass\nexcept e:\n pass", 4);
-        wrong("class A:\n def f(s):\n  try:\n   pass\n def g(s):\n  pass", 5);
+        Script.isRight("try:\n pass\n\n    \nexcept e:\n pass");
+        Script.isRight("try:\n try:\n  pass\n except e:\n  pass\nexcept e:\n pass");
+        Script.isRight("try:\n if 1:\n  pass\n pass\nexcept e:\n pass");
+        Script.isWrong("try:\n pass\npass", 3);
+        Script.isWrong("try:\n pass\nif 1:\n pass", 3);
+        Script.isWrong("try:\n pass\ntry:\n pass\nexcept e:\n pass", 3);
+        Script.isWrong("if 1:\n try:\n  pass\n pass", 4);
+        Script.isWrong("if 1:\n try:\n  pass\npass", 4);
+        Script.isWrong("if 1:\n try:\n  pass\nelse:\n pass", 4);
+        Script.isWrong("if 1:\n try:\n  pass\nexcept e:\n pass", 4);
+        Script.isWrong("try:\n try:\n  pass\nexcept e:\n pass", 4);
+        Script.isWrong("class A:\n def f(s):\n  try:\n   pass\n def g(s):\n  pass", 5);
     }
 
     private static void classesAndDefs() {
-        right("class A:\n pass\n a=1\n def f(s):\n  pass\n def g(s):\n  return 1\nclass B:\n pass");
-        right("if 1:\n class A:\n  pass\nelse:\n class A:\n  pass");
-        right("while 0:\n class A:\n  pass");
-        right("try:\n class A:\n  pass\nexcept e:\n class A:\n  pass");
+        Script.isRight("class A:\n pass\n a=1\n def f(s):\n  pass\n def g(s):\n  return 1\nclass B:\n pass");
+        Script.isRight("if 1:\n class A:\n  pass\nelse:\n class A:\n  pass");
+        Script.isRight("while 0:\n class A:\n  pass");
+        Script.isRight("try:\n class A:\n  pass\nexcept e:\n class A:\n  pass");
         for (String text : new String[] {"print 1", "1", "a.b=1", "A.b=1", "raise 1", "return 1", "a=super.b()", "if 1:\n  pass",
             "while 1:\n  pass", "try:\n  pass\n except e:\n  pass", "class B:\n  pass", "else:\n  pass", "except e:\n  pass"}) {
-            wrong("class A:\n " + text, 2);
-            wrong("class A:\n pass\n a=1\n\n " + text, 5);
+            Script.isWrong("class A:\n " + text, 2);
+            Script.isWrong("class A:\n pass\n a=1\n\n " + text, 5);
         }
-        wrong("class A:\n def f(s):\n  class B:\n   pass", 3);
-        wrong("class A:\n def f(s):\n  if 1:\n   class B:\n    pass", 4);
-        wrong("if 1:\n class A:\n  def f(s):\n   class B:\n    pass", 4);
-        wrong("while 0:\n if 1:\n  class A:\n   def f(s):\n    if 1:\n     class B:\n      pass", 6);
-        wrong("class A:\n def f(s):\n  def g(s):\n   pass", 3);
-        wrong("class A:\n def f(s):\n  if 1:\n   def g(s):\n    pass", 4);
-        wrong("def f(s):\n pass", 1);
-        wrong("if 1:\n def f(s):\n  pass", 2);
-        wrong("class A:\n pass\ndef f(s):\n pass", 3);
-        wrong("return 1", 1);
-        wrong("if 1:\n return 1", 2);
-        wrong("class A:\n def f(s):\n  return 1\n return 1", 4);
-        wrong("class A:\n def f(s):\n  return 1\nreturn 1", 4);
-        wrong("class A:\n def f(s):\n  return", 3);
-        wrong("a=super.b()", 1);
-        wrong("a=1+2*(super.b(1))", 1);
-        wrong("if super.b():\n pass", 1);
-        wrong("while 1:\n super.b().c=1", 2);
-        wrong("class A:\n def f(s):\n  pass\nsuper.f()", 4);
-        right("class A:\n def f(s):\n  if 1:\n   while 1:\n    try:\n     return super.f()\n    except e:\n     return s");
+        Script.isWrong("class A:\n def f(s):\n  class B:\n   pass", 3);
+        Script.isWrong("class A:\n def f(s):\n  if 1:\n   class B:\n    pass", 4);
+        Script.isWrong("if 1:\n class A:\n  def f(s):\n   class B:\n    pass", 4);
+        Script.isWrong("while 0:\n if 1:\n  class A:\n   def f(s):\n    if 1:\n     class B:\n      pass", 6);
+        Script.isWrong("class A:\n def f(s):\n  def g(s):\n   pass", 3);
+        Script.isWrong("class A:\n def f(s):\n  if 1:\n   def g(s):\n    pass", 4);
+        Script.isWrong("def f(s):\n pass", 1);
+        Script.isWrong("if 1:\n def f(s):\n  pass", 2);
+        Script.isWrong("class A:\n pass\ndef f(s):\n pass", 3);
+        Script.isWrong("return 1", 1);
+        Script.isWrong("if 1:\n return 1", 2);
+        Script.isWrong("class A:\n def f(s):\n  return 1\n return 1", 4);
+        Script.isWrong("class A:\n def f(s):\n  return 1\nreturn 1", 4);
+        Script.isWrong("class A:\n def f(s):\n  return", 3);
+        Script.isWrong("a=super.b()", 1);
+        Script.isWrong("a=1+2*(super.b(1))", 1);
+        Script.isWrong("if super.b():\n pass", 1);
+        Script.isWrong("while 1:\n super.b().c=1", 2);
+        Script.isWrong("class A:\n def f(s):\n  pass\nsuper.f()", 4);
+        Script.isRight("class A:\n def f(s):\n  if 1:\n   while 1:\n    try:\n     return super.f()\n    except e:\n     return s");
     }
 
     private static void theEnd() {
-        wrong("if 1:", 2);
-        wrong("pass\nwhile 1:", 3);
-        wrong("class A:", 2);
-        wrong("class A:\n def f(s):", 3);
-        wrong("try:", 2);
-        wrong("try:\n pass\nexcept e:", 4);
-        wrong("if 1:\n pass\nelse:", 4);
-        wrong("try:\n pass", 3);
-        wrong("try:\n pass\n\n   \n", 6);
-        wrong("if 1:\n\n", 4);
-        wrong("if 1:\n try:\n  pass", 4);
-        wrong("try:\n try:\n  pass\n except e:\n  pass", 6);
-        right("");
-        right("\n\n");
-        right("   \n    \n".stripLeading());
+        Script.isWrong("if 1:", 2);
+        Script.isWrong("pass\nwhile 1:", 3);
+        Script.isWrong("class A:", 2);
+        Script.isWrong("class A:\n def f(s):", 3);
+        Script.isWrong("try:", 2);
+        Script.isWrong("try:\n pass\nexcept e:", 4);
+        Script.isWrong("if 1:\n pass\nelse:", 4);
+        Script.isWrong("try:\n pass", 3);
+        Script.isWrong("try:\n pass\n\n   \n", 6);
+        Script.isWrong("if 1:\n\n", 4);
+        Script.isWrong("if 1:\n try:\n  pass", 4);
+        Script.isWrong("try:\n try:\n  pass\n except e:\n  pass", 6);
+        Script.isRight("");
+        Script.isRight("\n\n");
+        Script.isRight("   \n    \n".stripLeading());
     }
 
     private static void numbers() {
