@@ -14,7 +14,8 @@ public final class CallTest {
 
     private static void refused() {
         Script s = new Script();
-        s.runs("class A:\n def a(s,x):\n  n=x\n  print x\n  return x\na=A()\nz=A()\nclass Z(A):\n def z(s,x):\n  return x*3\ny=Z()", HostedScript.DONE, 0);
+        s.runs("class A:\n def a(s,x):\n  n=x\n  print x\n  return x\na=A()\nz=A()\nclass Z(A):\n def z(s,x):\n  return x*3\ny=Z()",
+            HostedScript.DONE, 0);
         s.runs("raise 7", HostedScript.RAISED, 12);
         int[] bad = {-1, 26, Integer.MIN_VALUE, Integer.MAX_VALUE};
         for (int b : bad) {
@@ -34,7 +35,8 @@ public final class CallTest {
 
     private static void results() {
         Script s = new Script();
-        s.runs("class A:\n def f(s,x):\n  return x\n def g(s,x):\n  return s\n def n(s,x):\n  pass\n def m(s,x):\n  return X()\n def e(s,x):\n  return none\na=A()",
+        s.runs("class A:\n def f(s,x):\n  return x\n def g(s,x):\n  return s\n def n(s,x):\n  pass\n def m(s,x):\n  return X()\n"
+            + " def e(s,x):\n  return none\na=A()",
             HostedScript.DONE, 0);
         int[] values = {0, 1, -1, 1000, Integer.MAX_VALUE, Integer.MIN_VALUE};
         for (int v : values) {
@@ -52,8 +54,10 @@ public final class CallTest {
 
     private static void errors() {
         Script s = new Script();
-        s.runs("class A:\n v=3\n def f(s,x):\n  return q\n def g(s,x):\n  return 1/x\n def h(s,x):\n  raise x+1\n def k(s):\n  pass\n def z(s,x):\n  return s.y(x)\n"
-            + " def p(s,x):\n  print none\n def m(s,x):\n  s.a=1\n  s.b=1\n  s.c=1\n  s.d=1\n  s.e=1\na=A()\nb=1\nc=none\nd=A()\nd.g=1", HostedScript.DONE, 0);
+        s.runs("class A:\n v=3\n def f(s,x):\n  return q\n def g(s,x):\n  return 1/x\n def h(s,x):\n  raise x+1\n def k(s):\n  pass\n"
+            + " def z(s,x):\n  return s.y(x)\n"
+            + " def p(s,x):\n  print none\n def m(s,x):\n  s.a=1\n  s.b=1\n  s.c=1\n  s.d=1\n  s.e=1\na=A()\nb=1\nc=none\nd=A()\nd.g=1",
+            HostedScript.DONE, 0);
         s.calls('x', 'f', 1, HostedScript.NAME, 0, 0);
         s.calls('b', 'f', 1, HostedScript.TYPE, 0, 0);
         s.calls('c', 'f', 1, HostedScript.TYPE, 0, 0);
@@ -77,7 +81,8 @@ public final class CallTest {
 
     private static void stepsAndDepth() {
         Script s = new Script(8, 20, 2);
-        s.runs("class A(X):\n def w(s,x):\n  while x:\n   x=x-1\n  return 5\n def r(s,x):\n  return s.r(x)\n def o(s,x):\n  return s.p(x)\n def p(s,x):\n  return x\na=A()", HostedScript.DONE, 0);
+        s.runs("class A(X):\n def w(s,x):\n  while x:\n   x=x-1\n  return 5\n def r(s,x):\n  return s.r(x)\n def o(s,x):\n"
+            + "  return s.p(x)\n def p(s,x):\n  return x\na=A()", HostedScript.DONE, 0);
         // x turns take 2x + 2 steps; each host call has all steps.
         s.calls('a', 'w', 9, HostedScript.DONE, Script.number(5), 0);
         s.calls('a', 'w', 9, HostedScript.DONE, Script.number(5), 0);
@@ -102,7 +107,8 @@ public final class CallTest {
 
     private static void effects() {
         Script s = new Script();
-        s.runs("n=0\nclass A:\n def f(s,x):\n  print x\n  s.p=x\n  A.k=x+1\n  return n\n def g(s,x):\n  s.p=x\n  q\na=A()", HostedScript.DONE, 0);
+        s.runs("n=0\nclass A:\n def f(s,x):\n  print x\n  s.p=x\n  A.k=x+1\n  return n\n def g(s,x):\n  s.p=x\n  q\na=A()",
+            HostedScript.DONE, 0);
         s.put("n=4\nprint");
         s.calls('a', 'f', 12, HostedScript.DONE, Script.number(0), 0);
         Script.due("printed", s.host.printed(0), 12);

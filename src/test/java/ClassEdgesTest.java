@@ -68,7 +68,8 @@ public final class ClassEdgesTest {
     private static void orderWithBases() {
         Script.sentence("With the bases B1 (and B2) the lists order(B1), (order(B2),) (B1 (, B2)) are merged behind it");
         Script s = new Script();
-        s.runs("class A:\n pass\nclass B(A):\n pass\nclass C(B):\n pass\nclass D:\n pass\nclass E(C,D):\n pass\nclass F(D,C):\n pass\nclass G(X,D):\n pass\nclass H(G):\n pass"
+        s.runs("class A:\n pass\nclass B(A):\n pass\nclass C(B):\n pass\nclass D:\n pass\nclass E(C,D):\n pass\nclass F(D,C):\n pass\n"
+            + "class G(X,D):\n pass\nclass H(G):\n pass"
             + "\nclass I(D,X):\n pass", DONE, 0);
         s.order(1, 1);
         s.order(2, 2, 1);
@@ -79,6 +80,8 @@ public final class ClassEdgesTest {
         s.order(7, 7, 0, 4);
         s.order(8, 8, 7, 0, 4);
         s.order(9, 9, 4, 0);
+        // Without the list of the bases themselves, this could be merged.
+        s.runs("class Z(A,B):\n pass", TYPE, 19);
         // As long as an order can be.
         Script t = new Script();
         t.runs("n=0\nwhile n<9:\n class X(X):\n  pass\n n=n+1", DONE, 0);
@@ -89,7 +92,8 @@ public final class ClassEdgesTest {
         Script.sentence("take the first list, in this sequence, whose first class stands in no list at another place than the first");
         Script s = new Script();
         // A is the first of the first list, but stands behind C in the second.
-        s.runs("class A:\n pass\nclass B(A):\n pass\nclass C(A):\n pass\nclass D(B,C):\n pass\nclass E(C,B):\n pass\nclass F(C):\n pass\nclass G(D,F):\n pass\nclass H(B,A):\n pass\n"
+        s.runs("class A:\n pass\nclass B(A):\n pass\nclass C(A):\n pass\nclass D(B,C):\n pass\nclass E(C,B):\n pass\nclass F(C):\n pass\n"
+            + "class G(D,F):\n pass\nclass H(B,A):\n pass\n"
             + "class I(D,C):\n pass", DONE, 0);
         s.order(4, 4, 2, 3, 1);
         s.order(5, 5, 3, 2, 1);
@@ -99,7 +103,8 @@ public final class ClassEdgesTest {
         s.order(9, 9, 4, 2, 3, 1);
         // A list is taken as long as it can: all of the first before the second.
         Script t = new Script();
-        t.runs("class A:\n pass\nclass B(A):\n pass\nclass C(B):\n pass\nclass D(X):\n pass\nclass E(C,D):\n pass\nclass F(A,X):\n pass\nclass G(D,F):\n pass\nclass H(F,D):\n pass",
+        t.runs("class A:\n pass\nclass B(A):\n pass\nclass C(B):\n pass\nclass D(X):\n pass\nclass E(C,D):\n pass\nclass F(A,X):\n pass\n"
+            + "class G(D,F):\n pass\nclass H(F,D):\n pass",
             DONE, 0);
         t.order(5, 5, 3, 2, 1, 4, 0);
         t.order(6, 6, 1, 0);
@@ -110,9 +115,11 @@ public final class ClassEdgesTest {
     private static void noListCanBeTaken() {
         Script.sentence("If no list can be taken: error TYPE.");
         String before = "class A:\n pass\nclass B(A):\n pass\nclass C(A,X):\n pass\nclass D(X,A):\n pass\nclass E(B):\n pass";
-        allEnd(before, TYPE, "class Z(A,A):\n pass", "class Z(X,X):\n pass", "class Z(A,B):\n pass", "class Z(A,E):\n pass", "class Z(B,E):\n pass", "class Z(C,D):\n pass",
+        allEnd(before, TYPE, "class Z(A,A):\n pass", "class Z(X,X):\n pass", "class Z(A,B):\n pass", "class Z(A,E):\n pass",
+            "class Z(B,E):\n pass", "class Z(C,D):\n pass",
             "class Z(D,C):\n pass", "class Z(X,C):\n pass", "class A(A,A):\n pass");
-        allEnd(before, DONE, "class Z(B,A):\n pass", "class Z(E,A):\n pass", "class Z(E,B):\n pass", "class Z(C,X):\n pass", "class Z(B,C):\n pass", "class Z(D,A):\n pass");
+        allEnd(before, DONE, "class Z(B,A):\n pass", "class Z(E,A):\n pass", "class Z(E,B):\n pass", "class Z(C,X):\n pass",
+            "class Z(B,C):\n pass", "class Z(D,A):\n pass");
         // In the middle of the merge: B can be taken, then A and X disagree.
         Script s = new Script();
         s.runs(before, DONE, 0);
@@ -129,7 +136,8 @@ public final class ClassEdgesTest {
 
     private static void searchForT() {
         Script.sentence("if the list holds class 0 and the name is t, class 0's own entry is found");
-        String before = "class A:\n def t(s,x):\n  return 77\nclass B:\n t=5\nclass C(A,X):\n def u(s,x):\n  return super.t(x)\nclass D(X):\n t=6\nclass E(X,A):\n def t(s,x):\n  return 78\n"
+        String before = "class A:\n def t(s,x):\n  return 77\nclass B:\n t=5\nclass C(A,X):\n def u(s,x):\n  return super.t(x)\n"
+            + "class D(X):\n t=6\nclass E(X,A):\n def t(s,x):\n  return 78\n"
             + "class F(A):\n def u(s,x):\n  return super.t(x)\nclass G(X,F):\n pass\na=A()\nb=B()\nc=C()\nd=D()\ne=E()\ng=G()";
         Script s = new Script();
         s.runs(before, DONE, 0);
@@ -150,8 +158,10 @@ public final class ClassEdgesTest {
     private static void searchForOthers() {
         Script.sentence("else the entry of the first class in the list that has one for the name");
         Script s = new Script();
-        s.runs("class A:\n h=1\n k=2\n n=3\nclass B(A):\n k=4\n n=none\nclass C(X,B):\n pass\nclass D(B,X):\n pass\nclass E(A):\n k=5\nclass F(B,E):\n pass", DONE, 0);
-        s.prints("print B.h\nprint B.k\nprint D.h\nprint C.k\nprint C().h(3)\nprint F.k\nprint F.h\nprint B.n==none", 1, 4, 1, 4, 6, 4, 1, 1);
+        s.runs("class A:\n h=1\n k=2\n n=3\nclass B(A):\n k=4\n n=none\nclass C(X,B):\n pass\nclass D(B,X):\n pass\nclass E(A):\n k=5\n"
+            + "class F(B,E):\n pass", DONE, 0);
+        s.prints("print B.h\nprint B.k\nprint D.h\nprint C.k\nprint C().h(3)\nprint F.k\nprint F.h\nprint B.n==none", 1, 4, 1, 4, 6, 4,
+            1, 1);
         s.runs("C.h", TYPE, s.host.lines() + 1);
         s.runs("D().h(3)", TYPE, s.host.lines() + 1);
         s.prints("A.o=6\nprint F.o\nE.o=7\nprint F.o\nB.o=8\nprint F.o\nF.o=9\nprint F.o", 6, 7, 8, 9);
@@ -170,7 +180,8 @@ public final class ClassEdgesTest {
         Script.sentence("THE HOST'S CLASS is number 0, at first named X, as if made by this text");
         Script s = new Script();
         Script.due("X", s.named('X'), 0);
-        s.prints("x=X()\nprint x.h(4)\nprint x.t(9)\nprint x.h(0)\nprint x.h(0-3)\nm=2147482647+1000\nprint x.h(m)\nprint x.t(m+1)", 8, 2, 0, -6, -2, 2);
+        s.prints("x=X()\nprint x.h(4)\nprint x.t(9)\nprint x.h(0)\nprint x.h(0-3)\nm=2147482647+1000\nprint x.h(m)\nprint x.t(m+1)", 8,
+            2, 0, -6, -2, 2);
         // The script's h serves the host's t.
         s.prints("class A(X):\n def h(s,x):\n  return x*x\na=A()\nprint a.t(5)\nprint a.t(0)", 9, -1);
         s.runs("class X:\n pass", DONE, 0);
@@ -188,7 +199,8 @@ public final class ClassEdgesTest {
     private static void hostLinesHaveTheNumberZero() {
         Script.sentence("whose lines have the number 0");
         Script s = new Script(8, 20, 2);
-        s.runs("class A(X):\n def h(s,x):\n  return none\nclass B(X):\n h=1\nclass C(X):\n def h(s,x):\n  return 1/x\nclass D(X):\n def h(s):\n  pass", DONE, 0);
+        s.runs("class A(X):\n def h(s,x):\n  return none\nclass B(X):\n h=1\nclass C(X):\n def h(s,x):\n  return 1/x\nclass D(X):\n"
+            + " def h(s):\n  pass", DONE, 0);
         s.runs("X().h(none)", TYPE, 0);
         s.runs("X().t(none)", TYPE, 0);
         s.runs("A().t(1)", TYPE, 0);
@@ -223,11 +235,15 @@ public final class ClassEdgesTest {
         String three = "class A:\n pass\nclass B(A):\n pass";
         String all = "n=0\nwhile n<7:\n class C:\n  pass\n n=n+1\nclass A:\n pass\nclass B(A):\n pass";
         for (String before : new String[] {three, all}) {
-            allEnd(before, NAME, "class D(Q):\n pass", "class D(A,Q):\n pass", "class D(Q,A):\n pass", "class D(Q,Q):\n pass", "class D(D):\n pass", "class D(D,D):\n pass");
+            allEnd(before, NAME, "class D(Q):\n pass", "class D(A,Q):\n pass", "class D(Q,A):\n pass", "class D(Q,Q):\n pass",
+                "class D(D):\n pass", "class D(D,D):\n pass", "class D(A,Z):\n pass");
             allEnd(before, TYPE, "class D(A,A):\n pass", "class D(A,B):\n pass");
         }
+        allEnd("pass", NAME, "class D(A):\n pass", "class D(A,X):\n pass", "class D(X,A):\n pass", "class A(A):\n pass",
+            "class D(X,Z):\n pass");
         allEnd(three, DONE, "class D:\n pass", "class D(A):\n pass", "class D(B,A):\n pass", "class A:\n pass", "class A(A):\n pass");
-        allEnd(all, MEMORY, "class D:\n pass", "class D(A):\n pass", "class D(B,A):\n pass", "class A:\n pass", "class A(A):\n pass", "class X:\n pass");
+        allEnd(all, MEMORY, "class D:\n pass", "class D(A):\n pass", "class D(B,A):\n pass", "class A:\n pass", "class A(A):\n pass",
+            "class X:\n pass");
         // The tenth can be made, the eleventh not; the failing line does nothing, and its block is not run.
         Script s = new Script();
         s.runs("n=1\nwhile 1:\n class A:\n  k=n\n n=n+1", MEMORY, 3);
@@ -242,7 +258,8 @@ public final class ClassEdgesTest {
     }
 
     private static void nextNumberAndLetter() {
-        Script.sentence("else a class is made with the next number, its letter names it from now on .., and its block is run, setting its entries");
+        Script.sentence("else a class is made with the next number, its letter names it from now on .., and its block is run, setting "
+            + "its entries");
         Script s = new Script();
         s.runs("class Z:\n a=1\n b=Z()\n def c(s):\n  return 2\nclass A(Z):\n b=3", DONE, 0);
         Script.due("Z", s.named('Z'), 1);
@@ -280,7 +297,8 @@ public final class ClassEdgesTest {
         Script.sentence("def: the entry becomes a method, whose HOME is the class made by this run of the class line.");
         Script s = new Script();
         // One def line, three homes: each goes on behind its own.
-        s.runs("class A:\n def f(s,x):\n  return x\nn=0\nwhile n<3:\n n=n+1\n class A(A):\n  k=n\n  def f(s,x):\n   return super.f(x*10+1)\na=A()", DONE, 0);
+        s.runs("class A:\n def f(s,x):\n  return x\nn=0\nwhile n<3:\n n=n+1\n class A(A):\n  k=n\n  def f(s,x):\n"
+            + "   return super.f(x*10+1)\na=A()", DONE, 0);
         s.order(4, 4, 3, 2, 1);
         s.prints("print a.f(7)", 7111);
         s.runs("class B:\n f=1\n def f(s):\n  return 2\n def f(s,x):\n  return 3\nb=B()", DONE, 0);
@@ -291,10 +309,12 @@ public final class ClassEdgesTest {
 
     // ---- Calls ----
 
-    private static final String CALLED = "class A:\n v=1\n def f(s):\n  return 1\n def g(s,x):\n  return x\nclass B(A):\n pass\na=A()\nb=B()\nb.g=2\nb.z=3\nn=none";
+    private static final String CALLED = "class A:\n v=1\n def f(s):\n  return 1\n def g(s,x):\n  return x\nclass B(A):\n pass\na=A()\n"
+        + "b=B()\nb.g=2\nb.z=3\nn=none";
 
     private static void methodCalls() {
-        Script.sentence("P and the argument are evaluated; then: P no object: TYPE; .. the order of its class is searched: nothing: ATTR; a value: TYPE");
+        Script.sentence("P and the argument are evaluated; then: P no object: TYPE; .. the order of its class is searched: nothing: "
+            + "ATTR; a value: TYPE");
         allEnd(CALLED, ZERO, "a.g(1/0)", "a.q(1/0)", "1.g(1/0)", "n.g(1/0)", "a.v(1/0)", "b.g(1/0)", "a.f(1/0)");
         allEnd(CALLED, NAME, "q.g(1)", "q.g()", "q.g(1/0)", "a.q(q)");
         allEnd(CALLED, TYPE, "1.g(1)", "0.f()", "n.g(1)", "none.q()", "(1<2).f()", "a.v()", "a.v(1)", "b.v()", "a.f().f()");
@@ -322,7 +342,8 @@ public final class ClassEdgesTest {
         s.calls('a', 'g', 1, DONE, Script.number(1), 0);
         // It comes before the depth.
         Script t = new Script(8, 200, 2);
-        t.runs("class A:\n def f(s,x):\n  return s.g(x)\n def g(s,x):\n  if x==1:\n   return s.f()\n  if x==2:\n   return s.q(x)\n  if x==3:\n   return s.v(x)\n"
+        t.runs("class A:\n def f(s,x):\n  return s.g(x)\n def g(s,x):\n  if x==1:\n   return s.f()\n  if x==2:\n   return s.q(x)\n"
+            + "  if x==3:\n   return s.v(x)\n"
             + "  return s.f(x)\n v=1\na=A()", DONE, 0);
         t.calls('a', 'f', 1, TYPE, 0, 6);
         t.calls('a', 'f', 2, ATTR, 0, 8);
@@ -352,15 +373,18 @@ public final class ClassEdgesTest {
         Script.sentence("else the method runs, its parameters set to the object (the RECEIVER of the call) and the argument");
         Script s = new Script();
         s.runs("class A:\n def f(z,a):\n  z.p=a\n  return z\n def g(a,z):\n  a=z\n  return a\na=A()\nb=A()", DONE, 0);
-        s.prints("print a.f(3)==a\nprint a.p\nprint b.f(none)==b\nprint b.p==none\nprint a.g(5)\nprint a.g(b)==b\nprint a.p", 1, 3, 1, 1, 5, 1, 3);
+        s.prints("print a.f(3)==a\nprint a.p\nprint b.f(none)==b\nprint b.p==none\nprint a.g(5)\nprint a.g(b)==b\nprint a.p", 1, 3, 1,
+            1, 5, 1, 3);
         s.calls('b', 'f', -1, DONE, Script.object(1), 0);
         Script.due("b.p", s.attribute('b', 'p'), Script.number(-1));
     }
 
     private static void superCalls() {
-        Script.sentence("with the receiver of the active call the part of its class's order behind the home of the active method is searched");
+        Script.sentence("with the receiver of the active call the part of its class's order behind the home of the active method is "
+            + "searched");
         Script s = new Script();
-        s.runs("class A:\n def f(s,x):\n  return x+s.k\nclass B(A):\n def f(s,x):\n  s=none\n  return super.f(x*10)\nclass C(A):\n def f(s,x):\n  return super.f(x*10+3)\n"
+        s.runs("class A:\n def f(s,x):\n  return x+s.k\nclass B(A):\n def f(s,x):\n  s=none\n  return super.f(x*10)\nclass C(A):\n"
+            + " def f(s,x):\n  return super.f(x*10+3)\n"
             + "class D(B,C):\n pass\nb=B()\nb.k=1\nd=D()\nd.k=2", DONE, 0);
         // In an object of D, what stands behind B is C, then A.
         s.prints("print b.f(5)\nprint d.f(5)", 51, 505);
@@ -370,15 +394,18 @@ public final class ClassEdgesTest {
         s.runs("class F(E):\n def f(s,x):\n  return 1\nf=F()\nf.k=6", DONE, 0);
         s.calls('f', 'g', 5, DONE, Script.number(11), 0);
         // A call of another object in between leaves the receiver as it was.
-        s.runs("class G(A):\n def f(s,x):\n  b.f(1)\n  return super.f(x)\ng=G()\ng.k=8", DONE, 0);
+        s.runs("class G(A):\n def f(s,x):\n  b.f(1)\n  n.n()\n  return super.f(x)\ng=G()\ng.k=8\nclass N:\n def n(s):\n  pass\nn=N()",
+            DONE, 0);
         s.calls('g', 'f', 5, DONE, Script.number(13), 0);
     }
 
     private static void superOnFromNothing() {
         Script.sentence("super . NAME ( E ) or ( ): the argument; .. then on as above from \"nothing: ATTR\"");
         Script s = new Script(8, 200, 2);
-        s.runs("class A:\n v=1\n def f(s):\n  return 1\n def g(s,x):\n  return x\nclass B(A):\n def a(s,x):\n  return super.q(1/x)\n def b(s,x):\n  return super.v()\n def c(s,x):\n"
-            + "  return super.f(x)\n def d(s,x):\n  return super.g()\n def e(s,x):\n  return super.g(x)\n def f(s,x):\n  return s.e(x)\n def g(s,x):\n  return super.a(x)\nb=B()", DONE, 0);
+        s.runs("class A:\n v=1\n def f(s):\n  return 1\n def g(s,x):\n  return x\nclass B(A):\n def a(s,x):\n  return super.q(1/x)\n"
+            + " def b(s,x):\n  return super.v()\n def c(s,x):\n"
+            + "  return super.f(x)\n def d(s,x):\n  return super.g()\n def e(s,x):\n  return super.g(x)\n def f(s,x):\n  return s.e(x)\n"
+            + " def g(s,x):\n  return super.a(x)\nb=B()", DONE, 0);
         s.calls('b', 'a', 0, ZERO, 0, 9);
         s.calls('b', 'a', 1, ATTR, 0, 9);
         s.calls('b', 'b', 1, TYPE, 0, 11);
@@ -430,8 +457,10 @@ public final class ClassEdgesTest {
     }
 
     private static void constructors() {
-        Script.sentence("the order is searched for i: a value: TYPE; nothing: TYPE if there is an argument, else done; a method: called as above with the new object");
-        String before = "class A:\n def i(s,x):\n  s.p=x\nclass B:\n def i(s):\n  s.p=8\nclass C:\n i=1\nclass D:\n i=none\nclass E(A):\n pass\nclass F(C):\n pass\nclass G(B):\n i=4";
+        Script.sentence("the order is searched for i: a value: TYPE; nothing: TYPE if there is an argument, else done; a method: called "
+            + "as above with the new object");
+        String before = "class A:\n def i(s,x):\n  s.p=x\nclass B:\n def i(s):\n  s.p=8\nclass C:\n i=1\nclass D:\n i=none\nclass E(A):\n"
+            + " pass\nclass F(C):\n pass\nclass G(B):\n i=4";
         allEnd(before, TYPE, "C()", "C(1)", "D()", "F()", "F(1)", "G()", "X(1)", "X(none)", "A()", "B(1)", "E()");
         allEnd(before, DONE, "X()", "A(1)", "B()", "E(none)");
         Script s = new Script(8, 200, 2);
@@ -447,7 +476,8 @@ public final class ClassEdgesTest {
     private static void answerOfAConstructor() {
         Script.sentence("its answer is dropped. The value is the new object.");
         Script s = new Script();
-        s.runs("class A:\n def i(s,x):\n  if x==0:\n   return none\n  if x==1:\n   return 5\n  if x==2:\n   return X()\n  s=X()\n  return s\nn=0\nwhile n<4:\n a=A(n)\n a.n=n\n print a.n\n n=n+1",
+        s.runs("class A:\n def i(s,x):\n  if x==0:\n   return none\n  if x==1:\n   return 5\n  if x==2:\n   return X()\n  s=X()\n"
+            + "  return s\nn=0\nwhile n<4:\n a=A(n)\n a.n=n\n print a.n\n n=n+1",
             DONE, 0);
         Script.due("a", s.variable('a'), Script.object(1));
         Script.due("what i answers is not held", s.host.live(), 1);
@@ -491,7 +521,8 @@ public final class ClassEdgesTest {
     private static void heldByLocalsAndReceivers() {
         Script.sentence("a local variable or the receiver of an active call");
         Script s = new Script(2, 200, 6);
-        live(s, "class A:\n def f(s,x):\n  y=X()\n  return s.g(x)\n def g(s,x):\n  return X()\n def h(s,x):\n  y=X()\n  y=0\n  return X()\n def k(s):\n  s=0\n  return X()==X()\n def l(s,x):\n"
+        live(s, "class A:\n def f(s,x):\n  y=X()\n  return s.g(x)\n def g(s,x):\n  return X()\n def h(s,x):\n  y=X()\n  y=0\n"
+            + "  return X()\n def k(s):\n  s=0\n  return X()==X()\n def l(s,x):\n"
             + "  return X()==x\na=A()", 1);
         s.runs("a.f(1)", MEMORY, 6);
         s.calls('a', 'f', 1, MEMORY, 0, 6);
@@ -514,7 +545,8 @@ public final class ClassEdgesTest {
         Script s = new Script(2, 200, 6);
         live(s, "X()==X()", 0);
         live(s, "(X()==X())==X()", 0);
-        for (String text : new String[] {"X()==(X()==X())", "X().h(X()==X())", "X().p=X()==X()", "X()+(X()==X())", "X()-(X()-X())", "X()<(X()==X())"}) {
+        for (String text : new String[] {"X()==(X()==X())", "X().h(X()==X())", "X().p=X()==X()", "X()+(X()==X())", "X()-(X()-X())",
+            "X()<(X()==X())"}) {
             s.runs(text, MEMORY, s.host.lines() + 1);
             Script.due("nothing is held after <" + text + ">", s.host.live(), 0);
         }
@@ -532,7 +564,7 @@ public final class ClassEdgesTest {
         t.runs("b.f(1)==X()", MEMORY, t.host.lines() + 1);
         live(t, "b.f(1)==1", 1);
         // An error that is caught lets them go.
-        live(t, "n=0\nwhile n<3:\n n=n+1\n try:\n  X()-1/0\n except e:\n  pass", 1);
+        t.prints("n=0\nwhile n<3:\n n=n+1\n try:\n  X()-1/0\n except e:\n  print e", ZERO, ZERO, ZERO);
     }
 
     private static void heldByTheCallThatMakesIt() {

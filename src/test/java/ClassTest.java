@@ -143,7 +143,8 @@ public final class ClassTest {
 
     private static void searching() {
         Script s = new Script();
-        s.runs("class A:\n p=1\n q=1\n r=1\n s=1\nclass B(A):\n q=2\n s=2\nclass C(A):\n q=3\n r=3\nclass D(B,C):\n pass\nd=D()\nd.p=9", HostedScript.DONE, 0);
+        s.runs("class A:\n p=1\n q=1\n r=1\n s=1\nclass B(A):\n q=2\n s=2\nclass C(A):\n q=3\n r=3\nclass D(B,C):\n pass\nd=D()\nd.p=9",
+            HostedScript.DONE, 0);
         s.prints("print d.p*1000+d.q*100+d.r*10+d.s", 9232);
         s.prints("print D.p*1000+D.q*100+D.r*10+D.s", 1232);
         s.prints("A.z=7\nprint d.z\nC.z=8\nprint d.z\nd.z=9\nprint d.z", 7, 8, 9);
@@ -172,14 +173,16 @@ public final class ClassTest {
         s.runs("a.f(q)", HostedScript.NAME, 31);
         // Too few arguments come before too many calls.
         Script t = new Script(8, 200, 2);
-        t.runs("class A:\n def f(s,x):\n  return s.g(x)\n def g(s,x):\n  if x:\n   return s.f()\n  return s.f(x)\na=A()", HostedScript.DONE, 0);
+        t.runs("class A:\n def f(s,x):\n  return s.g(x)\n def g(s,x):\n  if x:\n   return s.f()\n  return s.f(x)\na=A()",
+            HostedScript.DONE, 0);
         t.runs("a.f(1)", HostedScript.TYPE, 6);
         t.runs("a.f(0)", HostedScript.DEPTH, 7);
     }
 
     private static void plus() {
         Script s = new Script();
-        s.runs("class A:\n def a(s,x):\n  if x==none:\n   return 100\n  return x\n def b(s,x):\n  return x\na=A()\nclass B:\n a=4\nb=B()\nclass C:\n def a(s):\n  return 1\nc=C()"
+        s.runs("class A:\n def a(s,x):\n  if x==none:\n   return 100\n  return x\n def b(s,x):\n  return x\na=A()\nclass B:\n a=4\n"
+            + "b=B()\nclass C:\n def a(s):\n  return 1\nc=C()"
             + "\nclass D:\n pass\nd=D()", HostedScript.DONE, 0);
         s.prints("print a+3\nprint a+none\nprint (a+a)==a\nprint a+1+2\nprint a+2*3\nprint 1+(a+1)", 3, 100, 1, 3, 6, 2);
         s.runs("b+1", HostedScript.TYPE, 25);
@@ -196,7 +199,8 @@ public final class ClassTest {
         Script s = new Script();
         // D's order is D B C A: super in B goes on to C, not to A.
         s.runs("class A:\n def f(s,x):\n  return x\nclass B(A):\n def f(s,x):\n  return super.f(x*10+2)\nclass C(A):\n def f(s,x):\n"
-            + "  return super.f(x*10+3)\nclass D(B,C):\n def f(s,x):\n  return super.f(x*10+4)\n def g(s):\n  return super.g()\n def k(s,x):\n  return super.f()\n"
+            + "  return super.f(x*10+3)\nclass D(B,C):\n def f(s,x):\n  return super.f(x*10+4)\n def g(s):\n  return super.g()\n"
+            + " def k(s,x):\n  return super.f()\n"
             + "b=B()\nd=D()", HostedScript.DONE, 0);
         s.prints("print b.f(1)\nprint d.f(1)", 12, 1423);
         s.runs("d.g()", HostedScript.ATTR, 14);
@@ -211,16 +215,19 @@ public final class ClassTest {
         s.runs("class K:\n def f(s):\n  return super.z(1/0)\nk=K()\nk.f()", HostedScript.ZERO, 47);
         // Calls inside a method leave its receiver as it is.
         Script u = new Script();
-        u.prints("class A:\n def f(s,x):\n  return x+s.k\nclass B(A):\n def n(s):\n  pass\n def m(s,x):\n  pass\n def f(s,x):\n  b.n()\n  c.m(c)\n"
+        u.prints("class A:\n def f(s,x):\n  return x+s.k\nclass B(A):\n def n(s):\n  pass\n def m(s,x):\n  pass\n def f(s,x):\n  b.n()\n"
+            + "  c.m(c)\n"
             + "  return super.f(x)\nb=B()\nb.k=10\nc=B()\nc.k=20\nd=B()\nd.k=30\nprint d.f(1)+d.f(2)+b.f(3)+c.f(4)", 31 + 32 + 13 + 24);
         Script t = new Script(8, 200, 2);
-        t.runs("class A:\n def f(s):\n  return 1\nclass B(A):\n def f(s):\n  return super.f()\nclass C(B):\n def f(s):\n  return super.f()\nb=B()\nc=C()\nprint b.f()\nc.f()",
+        t.runs("class A:\n def f(s):\n  return 1\nclass B(A):\n def f(s):\n  return super.f()\nclass C(B):\n def f(s):\n"
+            + "  return super.f()\nb=B()\nc=C()\nprint b.f()\nc.f()",
             HostedScript.DEPTH, 6);
     }
 
     private static void making() {
         Script s = new Script();
-        s.runs("class A:\n def i(s,x):\n  s.p=x\n  return 99\nclass B:\n def i(s):\n  s.p=5\nclass C:\n i=4\nclass D:\n pass\nclass E(A):\n pass", HostedScript.DONE, 0);
+        s.runs("class A:\n def i(s,x):\n  s.p=x\n  return 99\nclass B:\n def i(s):\n  s.p=5\nclass C:\n i=4\nclass D:\n pass\n"
+            + "class E(A):\n pass", HostedScript.DONE, 0);
         s.prints("print A(3).p\nprint B().p\nprint E(4).p\nprint A(A(6)).p.p", 3, 5, 4, 6);
         s.runs("A()", HostedScript.TYPE, 18);
         s.runs("B(1)", HostedScript.TYPE, 19);
@@ -265,7 +272,8 @@ public final class ClassTest {
     private static void hostMethodT() {
         Script s = new Script();
         // Where class 0 is in the list, t is always its own.
-        s.runs("class A(X):\n def t(s,x):\n  return 77\n def g(s,x):\n  return super.t(x)\na=A()\nclass B(X):\n t=5\nb=B()\nclass C:\n def t(s,x):\n  return 88\n"
+        s.runs("class A(X):\n def t(s,x):\n  return 77\n def g(s,x):\n  return super.t(x)\na=A()\nclass B(X):\n t=5\nb=B()\nclass C:\n"
+            + " def t(s,x):\n  return 88\n"
             + "class D(C,X):\n pass\nd=D()\nclass E(C):\n t=6\ne=E()", HostedScript.DONE, 0);
         Script.due("A's own t", s.entry(1, 't'), Script.METHOD);
         Script.due("B's own t", s.entry(2, 't'), Script.number(5));
@@ -277,7 +285,8 @@ public final class ClassTest {
         s.prints("a.t=4\nprint a.t", 4);
         s.runs("a.t(9)", HostedScript.TYPE, 32);
         // Behind the home of a method of D, C's t is passed over for class 0's; without class 0 it is found.
-        s.prints("class F(C,X):\n def g(s,x):\n  return super.t(x)\nclass G(C):\n def g(s,x):\n  return super.t(x)\nprint F().g(9)\nprint G().g(9)", 2, 88);
+        s.prints("class F(C,X):\n def g(s,x):\n  return super.t(x)\nclass G(C):\n def g(s,x):\n  return super.t(x)\nprint F().g(9)\n"
+            + "print G().g(9)", 2, 88);
         // Class 0 in front of the home: the list that is searched does not hold it.
         s.prints("class H(X,G):\n pass\nprint H().g(9)\nprint H().t(9)", 88, 2);
     }

@@ -14,7 +14,8 @@ public final class FaceEdgesTest {
 
     /** Numbers that are no letter, no class and no place. */
     private static final int[] OUT_OF_RANGE = {-1, -2, -26, 26, 27, 100, 1000, Integer.MIN_VALUE, Integer.MAX_VALUE};
-    private static final String METHODS = "class A:\n v=3\n def f(s,x):\n  return x\n def g(s):\n  pass\n def r(s,x):\n  raise x\n def z(s,x):\n  return 1/x\na=A()\n";
+    private static final String METHODS = "class A:\n v=3\n def f(s,x):\n  return x\n def g(s):\n  pass\n def r(s,x):\n  raise x\n"
+        + " def z(s,x):\n  return 1/x\na=A()\n";
 
     public static void main(String[] args) {
         constants();
@@ -37,6 +38,7 @@ public final class FaceEdgesTest {
         resultOfRaised();
         resultElse();
         resultAtFirst();
+        placeAtFirst();
         placeOfErrors();
         placeIfDone();
         linesKept();
@@ -66,7 +68,8 @@ public final class FaceEdgesTest {
 
     private static void objectsAreClamped() {
         Script.sentence("objects: live objects at most, clamped to 2 .. 8");
-        int[][] cases = {{Integer.MIN_VALUE, 2}, {-1, 2}, {0, 2}, {1, 2}, {2, 2}, {3, 3}, {4, 4}, {5, 5}, {6, 6}, {7, 7}, {8, 8}, {9, 8}, {100, 8}, {Integer.MAX_VALUE, 8}};
+        int[][] cases = {{Integer.MIN_VALUE, 2}, {-1, 2}, {0, 2}, {1, 2}, {2, 2}, {3, 3}, {4, 4}, {5, 5}, {6, 6}, {7, 7}, {8, 8}, {9,
+            8}, {100, 8}, {Integer.MAX_VALUE, 8}};
         for (int[] c : cases) {
             Script s = new Script(c[0], 200, 6);
             s.runs("a=none\nwhile 1:\n b=X()\n b.n=a\n a=b", MEMORY, 3);
@@ -76,7 +79,8 @@ public final class FaceEdgesTest {
 
     private static void stepsAreClamped() {
         Script.sentence("steps: steps a run or host call, clamped to 20 .. 200");
-        int[][] cases = {{Integer.MIN_VALUE, 20}, {-1, 20}, {0, 20}, {19, 20}, {20, 20}, {21, 21}, {100, 100}, {199, 199}, {200, 200}, {201, 200}, {Integer.MAX_VALUE, 200}};
+        int[][] cases = {{Integer.MIN_VALUE, 20}, {-1, 20}, {0, 20}, {19, 20}, {20, 20}, {21, 21}, {100, 100}, {199, 199}, {200, 200},
+            {201, 200}, {Integer.MAX_VALUE, 200}};
         for (int[] c : cases) {
             Script s = new Script(8, c[0], 6);
             // A turn takes two steps, the last look at the condition one.
@@ -92,7 +96,8 @@ public final class FaceEdgesTest {
 
     private static void depthIsClamped() {
         Script.sentence("depth: active calls at most, clamped to 2 .. 6");
-        int[][] cases = {{Integer.MIN_VALUE, 2}, {-1, 2}, {0, 2}, {1, 2}, {2, 2}, {3, 3}, {4, 4}, {5, 5}, {6, 6}, {7, 6}, {100, 6}, {Integer.MAX_VALUE, 6}};
+        int[][] cases = {{Integer.MIN_VALUE, 2}, {-1, 2}, {0, 2}, {1, 2}, {2, 2}, {3, 3}, {4, 4}, {5, 5}, {6, 6}, {7, 6}, {100, 6},
+            {Integer.MAX_VALUE, 6}};
         for (int[] c : cases) {
             Script s = new Script(8, 200, c[0]);
             s.runs("class A:\n def f(s,x):\n  s.n=x\n  return s.f(x+1)\na=A()\na.f(1)", DEPTH, 4);
@@ -203,6 +208,11 @@ public final class FaceEdgesTest {
         Script.due("result", s.host.result(), 0);
         s.runs("try:\n pass", WRONG, 4);
         s.prints("print a+6", 7);
+        // Nothing of many wrong chunks is left in the way of a right one.
+        for (int at = 0; at < 12; at++) {
+            s.runs("b=1+1\n".repeat(60) + "1 1", WRONG, 63);
+        }
+        s.prints("b=1+1\n".repeat(40) + "print b", 2);
     }
 
     private static void keptChunks() {
@@ -224,7 +234,8 @@ public final class FaceEdgesTest {
     private static void endsOfRuns() {
         Script.sentence("DONE, or the error's kind NAME .. RAISED, or STEPS.");
         String before = "class A:\n def f(s,x):\n  return s.f(x)\na=A()\nn=none";
-        String[] texts = {"pass", "", "q", "n+1", "a.q", "1/0", "a.f(1)", "b=X()\nb.a=1\nb.b=1\nb.c=1\nb.d=1\nb.e=1", "raise 1", "while 1:\n pass", "1 1"};
+        String[] texts = {"pass", "", "q", "n+1", "a.q", "1/0", "a.f(1)", "b=X()\nb.a=1\nb.b=1\nb.c=1\nb.d=1\nb.e=1", "raise 1",
+            "while 1:\n pass", "1 1"};
         int[] answers = {DONE, DONE, NAME, TYPE, ATTR, ZERO, DEPTH, MEMORY, RAISED, STEPS, WRONG};
         for (int at = 0; at < texts.length; at++) {
             Script s = new Script();
@@ -297,8 +308,10 @@ public final class FaceEdgesTest {
     private static void endsOfCalls() {
         Script.sentence("Answers DONE, or NAME .. STEPS.");
         Script s = new Script(2, 20, 2);
-        s.runs("class A:\n def a(s,x):\n  return x\n def b(s,x):\n  return q\n def c(s,x):\n  return none+x\n def d(s,x):\n  return s.q\n def e(s,x):\n  return x/0\n def f(s,x):\n"
-            + "  return s.f(x)\n def g(s,x):\n  return X()==X()\n def h(s,x):\n  raise x\n def i(s):\n  pass\n def j(s,x):\n  while 1:\n   pass\n", DONE, 0);
+        s.runs("class A:\n def a(s,x):\n  return x\n def b(s,x):\n  return q\n def c(s,x):\n  return none+x\n def d(s,x):\n  return s.q\n"
+            + " def e(s,x):\n  return x/0\n def f(s,x):\n"
+            + "  return s.f(x)\n def g(s,x):\n  return X()==X()\n def h(s,x):\n  raise x\n def i(s):\n  pass\n def j(s,x):\n  while 1:\n"
+            + "   pass\n", DONE, 0);
         s.runs("a=A()", DONE, 0);
         int[] answers = {DONE, NAME, TYPE, ATTR, ZERO, DEPTH, MEMORY, RAISED, TYPE, STEPS};
         for (int at = 0; at < answers.length; at++) {
@@ -332,7 +345,8 @@ public final class FaceEdgesTest {
     private static void resultOfCalls() {
         Script.sentence("Of the last run, or host call that was not REFUSED: the value as a long that a host call answered, if DONE");
         Script s = new Script();
-        s.runs(METHODS + "class B:\n def n(s,x):\n  return none\n def p(s,x):\n  pass\n def o(s,x):\n  return s\n def q(s,x):\n  return X()\nb=B()", DONE, 0);
+        s.runs(METHODS + "class B:\n def n(s,x):\n  return none\n def p(s,x):\n  pass\n def o(s,x):\n  return s\n def q(s,x):\n"
+            + "  return X()\nb=B()", DONE, 0);
         for (int arg : new int[] {0, 1, -1, Integer.MIN_VALUE, Integer.MAX_VALUE}) {
             s.calls('a', 'f', arg, DONE, Script.number(arg), 0);
         }
@@ -365,7 +379,8 @@ public final class FaceEdgesTest {
 
     private static void resultElse() {
         Script.sentence("result: else 0");
-        String[] texts = {"pass", "", "q", "none+1", "a.q", "1/0", "a.y(1)", "a.w=1", "while 1:\n pass", "1 1", "if 1:", "try:\n raise 1\nexcept e:\n pass"};
+        String[] texts = {"pass", "", "q", "none+1", "a.q", "1/0", "a.y(1)", "a.w=1", "while 1:\n pass", "1 1", "if 1:",
+            "try:\n raise 1\nexcept e:\n pass"};
         for (String text : texts) {
             Script s = new Script();
             s.runs("class A:\n def y(s,x):\n  return s.y(x)\n def f(s,x):\n  return x\na=A()\na.a=1\na.b=1\na.c=1\na.d=1", DONE, 0);
@@ -382,17 +397,24 @@ public final class FaceEdgesTest {
     }
 
     private static void resultAtFirst() {
-        Script.sentence("result: At first 0. place: At first 0.");
+        Script.sentence("result: At first 0.");
         Script s = new Script();
         Script.due("result", s.host.result(), 0);
-        Script.due("place", s.host.place(), 0);
         s.host.call(26, 0, 0);
         s.host.put(1, 1, 1, 1);
         Script.due("result after a refused call", s.host.result(), 0);
-        Script.due("place after a refused call", s.host.place(), 0);
     }
 
     // ---- Promises 6 and 7 ----
+
+    private static void placeAtFirst() {
+        Script.sentence("place: At first 0.");
+        Script s = new Script();
+        Script.due("place", s.host.place(), 0);
+        s.host.call(26, 0, 0);
+        s.host.put(1, 1, 1, 1);
+        Script.due("place after a refused call", s.host.place(), 0);
+    }
 
     private static void placeOfErrors() {
         Script.sentence("Of the last run, or host call that was not REFUSED: the number of the line of the error (or first wrong line)");
@@ -479,7 +501,8 @@ public final class FaceEdgesTest {
     }
 
     private static void attributes() {
-        Script.sentence("An own attribute 0 .. 25 of the object in a global variable as a long; 0 if there is none (or no object, or a number out of range).");
+        Script.sentence("An own attribute 0 .. 25 of the object in a global variable as a long; 0 if there is none (or no object, or a "
+            + "number out of range).");
         Script s = new Script();
         s.runs("class A:\n k=1\n def m(s):\n  pass\na=A()\nz=A()\na.a=1\na.z=none\nz.a=a\nz.z=0-1\nb=3\nc=none", DONE, 0);
         Script.due("a.a", s.host.attribute(0, 0), Script.number(1));
@@ -528,7 +551,8 @@ public final class FaceEdgesTest {
     }
 
     private static void orders() {
-        Script.sentence("The number of the class at a place (0 first) of the order of a class; -1 past its end or for numbers out of range.");
+        Script.sentence("The number of the class at a place (0 first) of the order of a class; -1 past its end or for numbers out of "
+            + "range.");
         Script s = new Script();
         s.runs("class A(X):\n pass\nclass B(A):\n pass", DONE, 0);
         s.order(0, 0);

@@ -70,7 +70,8 @@ public final class LiveTest {
 
     private static void heldByLocals() {
         Script s = new Script(2, 200, 6);
-        live(s, "class A:\n def f(s,x):\n  y=X()\n  s.g(y)\n  return X()\n def g(s,x):\n  pass\n def h(s,x):\n  y=X()\n  y=1\n  return X()\n def k(s,x):\n  x=1\n  return X()\na=A()", 1);
+        live(s, "class A:\n def f(s,x):\n  y=X()\n  s.g(y)\n  return X()\n def g(s,x):\n  pass\n def h(s,x):\n  y=X()\n  y=1\n"
+            + "  return X()\n def k(s,x):\n  x=1\n  return X()\na=A()", 1);
         s.runs("a.f(1)", HostedScript.MEMORY, 5);
         live(s, "b=a.h(1)", 2);
         live(s, "b=1", 1);

@@ -194,7 +194,8 @@ public final class ModelTest {
             made.append(head).append("\n ").append(attribute()).append('=').append(small()).append('\n');
             int count = pick(4);
             for (int at = 0; at < count; at++) {
-                made.append(" def ").append(chance(4) ? 'i' : of("haftg")).append("(s,x):\n  ").append(methods[pick(methods.length)]).append('\n');
+                made.append(" def ").append(chance(4) ? 'i' : of("haftg")).append("(s,x):\n"
+                    + "  ").append(methods[pick(methods.length)]).append('\n');
             }
         }
         for (char name : "bcde".toCharArray()) {

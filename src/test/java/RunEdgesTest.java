@@ -119,13 +119,19 @@ public final class RunEdgesTest {
     }
 
     private static void localNames() {
-        Script.sentence("In a def block a name is LOCAL if it is a parameter or some line of the block is NAME = E or except NAME : with it");
+        Script.sentence("In a def block a name is LOCAL if it is a parameter or some line of the block is NAME = E or except NAME : with "
+            + "it");
         String globals = "g=1\nh=2\nx=3\ns=4\n";
         Script s = new Script();
         s.runs(globals + "class A:\n def f(s,x):\n  x=x+1\n  s=x\n  return s\na=A()\nb=a.f(10)", DONE, 0);
         Script.due("the parameter", s.variable('b'), Script.number(11));
         Script.due("global x", s.variable('x'), Script.number(3));
         Script.due("global s", s.variable('s'), Script.number(4));
+        s.runs("class B:\n def f(s,x):\n  return x\n def g(x,s):\n  return s\n def h(x):\n  return x\nc=B()\nd=c.f(5)\ne=c.g(6)\n"
+            + "f=c.h()", DONE, 0);
+        Script.due("a parameter that no line sets", s.variable('d'), Script.number(5));
+        Script.due("another", s.variable('e'), Script.number(6));
+        Script.due("the first", s.variable('f'), Script.object(2));
         // A line that sets the name may stand behind, deep in the block, or never be reached.
         String[] bodies = {"h=g\n  g=5", "if 1:\n   return g\n  g=5", "if 0:\n   while 1:\n    g=5\n  return g",
             "try:\n   pass\n  except g:\n   pass\n  return g", "return g\n  try:\n   pass\n  except g:\n   pass"};
@@ -143,7 +149,8 @@ public final class RunEdgesTest {
     private static void eachCallHasItsOwn() {
         Script.sentence("each call has its own, unset at first but the parameters");
         Script s = new Script();
-        s.runs("class A:\n def f(s,x):\n  if x:\n   y=x\n   z=s.f(0)\n  return y\n def g(s,x):\n  y=x\n  if x:\n   s.g(x-1)\n  return y\na=A()", DONE, 0);
+        s.runs("class A:\n def f(s,x):\n  if x:\n   y=x\n   z=s.f(0)\n  return y\n def g(s,x):\n  y=x\n  if x:\n   s.g(x-1)\n  return y\n"
+            + "a=A()", DONE, 0);
         s.runs("a.f(0)", NAME, 6);
         s.runs("a.f(1)", NAME, 6);
         s.calls('a', 'g', 3, DONE, Script.number(3), 0);
@@ -167,14 +174,16 @@ public final class RunEdgesTest {
     private static void takes(int steps, String before, String text) {
         Script s = new Script(8, 20, 6);
         s.runs(before, DONE, 0);
-        s.runs("pass\n".repeat(20 - steps) + text, DONE, 0);
+        s.runs("pass\n".repeat(19 - steps) + text + "\npass", DONE, 0);
         Script t = new Script(8, 20, 6);
         t.runs(before, DONE, 0);
-        Script.due("one step too many for <" + text + ">", t.run("pass\n".repeat(21 - steps) + text), STEPS);
+        Script.due("one step too many for <" + text + ">", t.run("pass\n".repeat(20 - steps) + text + "\npass"), STEPS);
+        Script.due("place of the last line after <" + text + ">", t.host.place(), t.host.lines());
     }
 
     private static void linesThatTakeAStep() {
-        Script.sentence("A STEP is taken when a line is reached that is a class, def, try, if or while line (while: each time) or no opener");
+        Script.sentence("A STEP is taken when a line is reached that is a class, def, try, if or while line (while: each time) or no "
+            + "opener");
         for (String line : new String[] {"pass", "print 1", "1", "a=1", "X()", "x.p=1", "A.p=1"}) {
             takes(1, "class A:\n pass\nx=X()", line);
         }
@@ -266,13 +275,14 @@ public final class RunEdgesTest {
         s.prints("(a.p(1)+a.p(2))*a.p(3)<a.p(4)-a.p(5)", 1, 2, 3, 4, 5);
         s.prints("a.p(1)==a.p(2)/a.p(3)", 1, 2, 3);
         s.prints("a.o(1).o(a.p(2)).p(a.p(3))", 1, 2, 2, 3, 3);
+        s.prints("print 10-3-2\nprint 10-3+2\nprint 100/5/2\nprint 2*7/4\nprint 2+3*4\nprint 20-6/3", 5, 9, 10, 3, 14, 18);
         s.prints("a.o(1).k=a.p(2)", 1, 2);
-        s.runs("q+1/0", NAME, 14);
-        s.runs("1/0+q", ZERO, 15);
-        s.runs("1/0-(1+q)", ZERO, 16);
-        s.runs("none*1+q", TYPE, 17);
-        s.runs("q.p(1/0)", NAME, 18);
-        s.runs("q.p=1/0", NAME, 19);
+        s.runs("q+1/0", NAME, 20);
+        s.runs("1/0+q", ZERO, 21);
+        s.runs("1/0-(1+q)", ZERO, 22);
+        s.runs("none*1+q", TYPE, 23);
+        s.runs("q.p(1/0)", NAME, 24);
+        s.runs("q.p=1/0", NAME, 25);
     }
 
     // ---- Lines ----
@@ -315,7 +325,8 @@ public final class RunEdgesTest {
     private static void returnLines() {
         Script.sentence("return E: the call answers it.");
         Script s = new Script();
-        s.runs("class A:\n def f(s,x):\n  while 1:\n   try:\n    if 1:\n     return x\n   except e:\n    pass\n  print 9\n def g(s,x):\n  return s\n  print 9"
+        s.runs("class A:\n def f(s,x):\n  while 1:\n   try:\n    if 1:\n     return x\n   except e:\n    pass\n  print 9\n def g(s,x):\n"
+            + "  return s\n  print 9"
             + "\n def n(s,x):\n  return none\na=A()", DONE, 0);
         s.prints("print a.f(4)+a.f(5)\nprint a.g(1)==a\nprint a.n(1)==none", 9, 1, 1);
         s.calls('a', 'f', 6, DONE, Script.number(6), 0);
@@ -324,7 +335,8 @@ public final class RunEdgesTest {
     private static void callsThatEndOtherwise() {
         Script.sentence("A call whose block ends otherwise answers none.");
         Script s = new Script();
-        s.runs("class A:\n def f(s,x):\n  pass\n def g(s,x):\n  if x:\n   return 1\n def h(s,x):\n  x\n def k(s,x):\n  while x:\n   x=0\n def l(s,x):\n  try:\n"
+        s.runs("class A:\n def f(s,x):\n  pass\n def g(s,x):\n  if x:\n   return 1\n def h(s,x):\n  x\n def k(s,x):\n  while x:\n   x=0\n"
+            + " def l(s,x):\n  try:\n"
             + "   1/x\n  except e:\n   pass\n def m(s,x):\n  if 0:\n   pass\n  else:\n   pass\na=A()", DONE, 0);
         for (char method : new char[] {'f', 'g', 'h', 'k', 'l', 'm'}) {
             s.calls('a', method, 0, DONE, Script.NONE, 0);
@@ -354,7 +366,8 @@ public final class RunEdgesTest {
     }
 
     private static void setAttributes() {
-        Script.sentence("P . NAME = E: P, then E, are evaluated; P's value no object: TYPE; the object has 4 attributes and none of this name: MEMORY; else set.");
+        Script.sentence("P . NAME = E: P, then E, are evaluated; P's value no object: TYPE; the object has 4 attributes and none of this "
+            + "name: MEMORY; else set.");
         String full = "x=X()\nx.a=1\nx.b=1\nx.c=1\nx.d=1\ny=X()\ny.a=1\ny.b=1\ny.c=1\nz=none";
         allEnd(full, NAME, "q.a=1/0", "x.e=q", "1.a=q", "none.a=q");
         allEnd(full, ZERO, "x.e=1/0", "1.a=1/0", "z.a=1/0");
@@ -364,7 +377,8 @@ public final class RunEdgesTest {
     }
 
     private static void setEntries() {
-        Script.sentence("CLASS . NAME = E: E is evaluated; the letter names no class: NAME; class 0: TYPE; else the entry becomes that value.");
+        Script.sentence("CLASS . NAME = E: E is evaluated; the letter names no class: NAME; class 0: TYPE; else the entry becomes that "
+            + "value.");
         String before = "class A:\n a=1\n def f(s):\n  pass\nx=A()";
         allEnd(before, ZERO, "Q.a=1/0", "X.a=1/0", "A.a=1/0");
         allEnd(before, NAME, "Q.a=1", "B.a=none", "A.a=q", "X.a=q");
@@ -379,11 +393,14 @@ public final class RunEdgesTest {
     }
 
     private static void triesCatch() {
-        Script.sentence("try: an error of its block (also in methods called there) sets the NAME of its except line to the error's code (NAME 2 .. MEMORY 7; v for RAISED), "
+        Script.sentence("try: an error of its block (also in methods called there) sets the NAME of its except line to the error's code "
+            + "(NAME 2 .. MEMORY 7; v for RAISED), "
             + "and the except block is run");
-        String before = "class A:\n def f(s,x):\n  return s.f(x)\n def r(s,x):\n  raise x\n def n(s,x):\n  return s.o(x)\n def o(s,x):\n  return q\na=A()\n"
+        String before = "class A:\n def f(s,x):\n  return s.f(x)\n def r(s,x):\n  raise x\n def n(s,x):\n  return s.o(x)\n def o(s,x):\n"
+            + "  return q\na=A()\n"
             + "a.p=1\na.y=1\na.z=1\na.w=1";
-        String[] texts = {"q", "none+1", "a.v", "1/0", "a.f(1)", "a.v=1", "raise 8", "raise 0", "raise 0-2", "raise 9", "a.n(1)", "a.r(44)", "raise none"};
+        String[] texts = {"q", "none+1", "a.v", "1/0", "a.f(1)", "a.v=1", "raise 8", "raise 0", "raise 0-2", "raise 9", "a.n(1)",
+            "a.r(44)", "raise none"};
         int[] codes = {2, 3, 4, 5, 6, 7, 8, 0, -2, 9, 2, 44, 3};
         for (int at = 0; at < texts.length; at++) {
             Script s = new Script();
@@ -395,6 +412,9 @@ public final class RunEdgesTest {
         Script t = new Script();
         t.prints("try:\n try:\n  raise 1\n except e:\n  print e\n  raise 2\n print 3\nexcept f:\n print f", 1, 2);
         t.runs("try:\n pass\nexcept e:\n pass\nraise 5", RAISED, 14);
+        // From the deepest level.
+        t.prints("try:\n if 1:\n  if 1:\n   if 1:\n    if 1:\n     if 1:\n      if 1:\n       if 1:\n        raise 6\nexcept e:\n"
+            + " print e", 6);
     }
 
     private static void triesWithoutError() {
@@ -410,14 +430,16 @@ public final class RunEdgesTest {
 
     private static void unsetNames() {
         Script.sentence("NAME: unset: NAME.");
-        allEnd("x=X()", NAME, "a", "z", "print a", "a=a", "a+1", "1+a", "none+a", "x.h(a)", "X(a)", "a.h(1)", "a==a", "if a:\n pass", "while a:\n pass", "x.p=a");
+        allEnd("x=X()", NAME, "a", "z", "print a", "a=a", "a+1", "1+a", "none+a", "x.h(a)", "X(a)", "a.h(1)", "a==a", "if a:\n pass",
+            "while a:\n pass", "x.p=a");
         allEnd("x=none", DONE, "x", "x==x");
     }
 
     private static void intsElseType() {
         Script.sentence("+ - * / <: ints, else TYPE");
         for (String sign : new String[] {"+", "-", "*", "/", "<"}) {
-            allEnd("x=X()\nn=none", TYPE, "1" + sign + "n", "n" + sign + "1", "n" + sign + "n", "1" + sign + "x", "0" + sign + "X()", "n" + sign + "x");
+            allEnd("x=X()\nn=none", TYPE, "1" + sign + "n", "n" + sign + "1", "n" + sign + "n", "1" + sign + "x", "0" + sign + "X()",
+                "n" + sign + "x");
             allEnd("x=X()", DONE, "1" + sign + "1", "0" + sign + "1", "(1<2)" + sign + "1");
             if (!sign.equals("+")) {
                 allEnd("x=X()", TYPE, "x" + sign + "1", "x" + sign + "x", "x" + sign + "none");
@@ -428,7 +450,8 @@ public final class RunEdgesTest {
 
     private static void flooredDivision() {
         Script.sentence("/ is floored");
-        int[][] cases = {{7, 2, 3}, {-7, 2, -4}, {7, -2, -4}, {-7, -2, 3}, {6, 2, 3}, {-6, 2, -3}, {6, -2, -3}, {0, 5, 0}, {0, -5, 0}, {1, 7, 0}, {-1, 7, -1},
+        int[][] cases = {{7, 2, 3}, {-7, 2, -4}, {7, -2, -4}, {-7, -2, 3}, {6, 2, 3}, {-6, 2, -3}, {6, -2, -3}, {0, 5, 0}, {0, -5, 0},
+            {1, 7, 0}, {-1, 7, -1},
             {1, -7, -1}, {-1, -7, 0}, {5, 1, 5}, {5, -1, -5}};
         for (int[] c : cases) {
             Script s = new Script();
@@ -445,7 +468,8 @@ public final class RunEdgesTest {
 
     private static void divisorZero() {
         Script.sentence("divisor 0: ZERO");
-        allEnd("x=X()\nz=0", ZERO, "1/0", "0/0", "(0-1)/0", "1/z", "1/(1-1)", "1/(2<1)", "print 4/0", "a=1/0", "if 1/0:\n pass", "x.h(1/0)", "x.p=1/0", "Q(1/0)");
+        allEnd("x=X()\nz=0", ZERO, "1/0", "0/0", "(0-1)/0", "1/z", "1/(1-1)", "1/(2<1)", "print 4/0", "a=1/0", "if 1/0:\n pass",
+            "x.h(1/0)", "x.p=1/0", "Q(1/0)");
         allEnd("x=X()", TYPE, "none/0", "x/0");
         allEnd("x=X()", NAME, "1/q");
         allEnd("x=X()", DONE, "0/1", "1/(0-1)");
@@ -460,7 +484,8 @@ public final class RunEdgesTest {
 
     private static void plusOfAnObject() {
         Script.sentence("But L + R with an object L is the call L.a(R).");
-        String before = "class A:\n def a(s,x):\n  s.k=x\n  return x\na=A()\nclass B:\n a=1\nb=B()\nclass C:\n def a(s):\n  return 1\nc=C()\nx=X()\nd=A()\nd.a=1";
+        String before = "class A:\n def a(s,x):\n  s.k=x\n  return x\na=A()\nclass B:\n a=1\nb=B()\nclass C:\n def a(s):\n  return 1\n"
+            + "c=C()\nx=X()\nd=A()\nd.a=1";
         Script s = new Script();
         s.runs(before, DONE, 0);
         s.prints("print a+5\nprint a.k\nprint (a+none)==none\nprint (a+a)==a\nprint a+1+2\nprint a+2*3", 5, 5, 1, 1, 3, 6);
@@ -474,12 +499,14 @@ public final class RunEdgesTest {
         Script s = new Script();
         s.runs("a=X()\nb=X()\nc=a\nn=none\nclass A:\n pass\nd=A()", DONE, 0);
         s.prints("print n==none\nprint 5==2+3\nprint a==c\nprint a==a\nprint 0-1==0-1\nprint 0==0", 1, 1, 1, 1, 1, 1);
-        s.prints("print n==0\nprint 0==n\nprint 1==2\nprint a==b\nprint a==d\nprint a==0\nprint 0==a\nprint n==a\nprint a==n\nprint d==1\nprint X()==X()", 0, 0, 0, 0, 0, 0, 0,
+        s.prints("print n==0\nprint 0==n\nprint 1==2\nprint a==b\nprint a==d\nprint a==0\nprint 0==a\nprint n==a\nprint a==n\n"
+            + "print d==1\nprint X()==X()", 0, 0, 0, 0, 0, 0, 0,
             0, 0, 0, 0);
     }
 
     private static void attributeOfAnObject() {
-        Script.sentence("P . NAME: no object: TYPE; an own attribute: its value; else its class's order is searched: nothing: ATTR, a method: TYPE, a value: it.");
+        Script.sentence("P . NAME: no object: TYPE; an own attribute: its value; else its class's order is searched: nothing: ATTR, a "
+            + "method: TYPE, a value: it.");
         String before = "class A:\n a=1\n n=none\n def m(s):\n  pass\nclass B(A):\n b=2\nx=B()\nx.c=3\nx.n=4\ny=B()\ny.m=5\ny.q=none";
         allEnd(before, TYPE, "1.a", "none.a", "(1<2).z", "x.m", "y.q.a");
         allEnd(before, ATTR, "x.z", "x.q", "X().a");
@@ -503,9 +530,11 @@ public final class RunEdgesTest {
     // ---- Errors and longs ----
 
     private static void placeOfAnError() {
-        Script.sentence("An error that nothing catches ends the run; its place is the number of the line that was being run where it arose (for tests of a call: the caller's line).");
+        Script.sentence("An error that nothing catches ends the run; its place is the number of the line that was being run where it "
+            + "arose (for tests of a call: the caller's line).");
         Script s = new Script();
-        s.runs("class A:\n def f(s,x):\n  pass\n  return 1/x\n def g(s,x):\n  return s.f(x)\n def h(s):\n  return s.z(1)\n def i(s):\n  A.k=1\n def r(s,x):\n  return s.r(x)\na=A()",
+        s.runs("class A:\n def f(s,x):\n  pass\n  return 1/x\n def g(s,x):\n  return s.f(x)\n def h(s):\n  return s.z(1)\n def i(s):\n"
+            + "  A.k=1\n def r(s,x):\n  return s.r(x)\na=A()",
             DONE, 0);
         s.runs("pass\na.f(0)\npass", ZERO, 4);
         s.runs("a.g(0)", ZERO, 4);
@@ -538,9 +567,11 @@ public final class RunEdgesTest {
     }
 
     private static void valuesAsLongs() {
-        Script.sentence("unset or nothing 0; none 2^32; an int 2 * 2^32 plus it as 0 .. 2^32 - 1; an object 3 * 2^32 plus the number of its class; a method 4 * 2^32");
+        Script.sentence("unset or nothing 0; none 2^32; an int 2 * 2^32 plus it as 0 .. 2^32 - 1; an object 3 * 2^32 plus the number of "
+            + "its class; a method 4 * 2^32");
         Script s = new Script();
-        s.runs("b=none\nc=0\nd=1\ne=0-1\nf=2147482647+1000\ng=f+1\nh=X()\nn=0\nwhile n<9:\n class A:\n  def m(s):\n   pass\n n=n+1\ni=A()\ni.p=h\ni.q=i\nA.o=i", DONE, 0);
+        s.runs("b=none\nc=0\nd=1\ne=0-1\nf=2147482647+1000\ng=f+1\nh=X()\nn=0\nwhile n<9:\n class A:\n  def m(s):\n   pass\n n=n+1\n"
+            + "i=A()\ni.p=h\ni.q=i\nA.o=i", DONE, 0);
         Script.due("unset", s.variable('a'), 0L);
         Script.due("none", s.variable('b'), 4294967296L);
         Script.due("0", s.variable('c'), 8589934592L);

@@ -84,8 +84,10 @@ public final class RunTest {
         Script.due("y", s.variable('y'), Script.NONE);
         Script.due("z", s.variable('z'), Script.object(0));
         // A parameter, a name that is set and the name of an except line are local; all others are global.
-        s.runs("class A:\n def f(v,x):\n  if 0:\n   y=1\n  return y\n def g(v):\n  return x\n def h(v):\n  try:\n   1/0\n  except z:\n   return z"
-            + "\n def k(v,x):\n  x=x+1\n  y=x\n  return y*10\n def m(v):\n  if 0:\n   try:\n    pass\n   except x:\n    pass\n  return x\na=A()",
+        s.runs("class A:\n def f(v,x):\n  if 0:\n   y=1\n  return y\n def g(v):\n  return x\n def h(v):\n  try:\n   1/0\n  except z:\n"
+            + "   return z"
+            + "\n def k(v,x):\n  x=x+1\n  y=x\n  return y*10\n def m(v):\n  if 0:\n   try:\n    pass\n   except x:\n    pass\n"
+            + "  return x\na=A()",
             HostedScript.DONE, 0);
         s.runs("a.f(1)", HostedScript.NAME, 9);
         s.prints("print a.g()\nprint a.h()\nprint a.k(4)\nprint x", 1, 5, 50, 1);
@@ -98,7 +100,8 @@ public final class RunTest {
         t.prints("class A:\n def f(v,n):\n  k=n\n  if n:\n   v.f(n-1)\n  return k*10+n\na=A()\nprint a.f(3)", 33);
         // A call at the same depth leaves nothing behind, from the first letter to the last.
         Script w = new Script();
-        w.runs("class A:\n def f(s):\n  a=1\n  z=1\n def g(s):\n  if 0:\n   a=1\n  return a\n def h(s):\n  if 0:\n   z=1\n  return z\na=A()", HostedScript.DONE, 0);
+        w.runs("class A:\n def f(s):\n  a=1\n  z=1\n def g(s):\n  if 0:\n   a=1\n  return a\n def h(s):\n  if 0:\n   z=1\n  return z\n"
+            + "a=A()", HostedScript.DONE, 0);
         w.runs("a.f()\na.g()", HostedScript.NAME, 8);
         w.runs("a.f()\na.h()", HostedScript.NAME, 12);
         // Lines of a class block set entries, but its names are global.
@@ -215,10 +218,13 @@ public final class RunTest {
         Script s = new Script();
         s.prints("n=0\nwhile n<2:\n if 1:\n  if 1:\n   try:\n    if 1:\n     if 1:\n      if 1:\n       n=n+1\n      else:\n       pass\n"
             + "     else:\n      pass\n    else:\n     pass\n   except e:\n    pass\n  else:\n   pass\n else:\n  pass\nprint n", 2);
-        s.prints("if 1:\n if 1:\n  if 1:\n   if 1:\n    if 1:\n     if 1:\n      if 1:\n       if 1:\n        print 1\n       else:\n        pass\n"
-            + "      else:\n       pass\n     else:\n      pass\n    else:\n     pass\n   else:\n    pass\n  else:\n   pass\n else:\n  pass\nelse:\n pass\n"
+        s.prints("if 1:\n if 1:\n  if 1:\n   if 1:\n    if 1:\n     if 1:\n      if 1:\n       if 1:\n        print 1\n       else:\n"
+            + "        pass\n"
+            + "      else:\n       pass\n     else:\n      pass\n    else:\n     pass\n   else:\n    pass\n  else:\n   pass\n else:\n"
+            + "  pass\nelse:\n pass\n"
             + "print 2", 1, 2);
-        s.prints("try:\n if 1:\n  if 1:\n   if 1:\n    if 1:\n     if 1:\n      if 1:\n       if 1:\n        raise 6\nexcept e:\n print e", 6);
+        s.prints("try:\n if 1:\n  if 1:\n   if 1:\n    if 1:\n     if 1:\n      if 1:\n       if 1:\n        raise 6\nexcept e:\n"
+            + " print e", 6);
     }
 
     private static void steps() {

@@ -20,6 +20,7 @@ public final class TextEdgesTest {
         fortyTokens();
         forms();
         twoDifferentNames();
+        operandsAndPostfixes();
         oneComparison();
         noCallOfAnEntry();
         beforeTheSign();
@@ -295,6 +296,15 @@ public final class TextEdgesTest {
             "A.=1", "A.b=", "A b=1", "if :", "if 1", "if 1 1:", "if 1::", "while :", "while 1", "while 1 1:", "try", "try 1:", "class A",
             "class :", "class A(X)", "class A(X:", "class A X):", "class A():", "class A(X,):", "class A(,X):", "class A(X Y):",
             "class A(X,Y,Z):", "class A(X,Y)", "class A:1", "class", "def", "return", "if", "while", "else", "except");
+        // Another token in the place of one.
+        allWrong(1, "class a:", "class A)X):", "class A(X(:", "class A(x):", "class A(X.Y):", "class A(X,y):", "class A(X,Y(:",
+            "class A)X,Y):", "class A(X,Y)=",
+            "if 1=", "try)", "a==1=2", "a,b=1", "X,b=1", "a:1", "print:1");
+        allWrong(2, "class A:\n def F(s):\n  pass", "class A:\n def f)s):\n  pass", "class A:\n def f(s(:\n  pass",
+            "class A:\n def f(S):\n  pass",
+            "class A:\n def f(s.x):\n  pass", "class A:\n def f(s,X):\n  pass", "class A:\n def f(s,x(:\n  pass",
+                "class A:\n def f)s,x):\n  pass");
+        allWrong(3, "try:\n pass\nexcept E:\n pass", "try:\n pass\nexcept 1:\n pass", "if 1:\n pass\nelse=\n pass");
         allWrong(2, "class A:\n def (s):\n  pass", "class A:\n def f s):\n  pass", "class A:\n def f(s:\n  pass",
             "class A:\n def f(s)\n  pass", "class A:\n def f():\n  pass", "class A:\n def f:\n  pass",
             "class A:\n def f(s,):\n  pass", "class A:\n def f(s x):\n  pass", "class A:\n def f(s,x,y):\n  pass",
@@ -312,10 +322,27 @@ public final class TextEdgesTest {
         new Script().runs("class A(X,X):\n pass", HostedScript.TYPE, 1);
     }
 
+    private static void operandsAndPostfixes() {
+        Script.sentence("Q := NUMBER | NAME | none | ( E ) | CLASS ( ) | CLASS ( E ) | CLASS . NAME | super . NAME ( ) | super . NAME ( "
+            + "E )");
+        allRight("1", "a", "none", "(1)", "X()", "X(1)", "X.a", "a.b", "a.b()", "a.b(1)", "1.b", "none.b", "(1).b()", "X().b",
+            "X.a.b.c(1).d()", "1+2-3*4/5", IN_DEF + "super.f()",
+            IN_DEF + "super.f(1).a+super.f(super.f())");
+        allWrong(1, "(1", "1)", "((1)", "(1))", "()", "(", ")", "X", "X(", "X)", "X(1", "X(,)", "X(1,2)", "X()()", "X(1)(1)", "X.",
+            "X.1", "X.X", "X.none", "a.", "a.1", "a.X", "a.b(", "a.b(1",
+            "a.b)", "a.b(1,2)", "a.b()()", "a()", "a(1)", "1(1)", "none()", "(a)(1)", "a..b", ".b", "1+", "+1", "-1", "1+*2", "1--1",
+                "*1", "1/", "a b", "1 a", "none none", "X() X()", "1,2",
+            "(1+)2", "(1 2)", "pass+1", "1+pass", "print+1", "if+1");
+        allWrong(3, IN_DEF + "super", IN_DEF + "super.f", IN_DEF + "super()", IN_DEF + "super(1)", IN_DEF + "super.f(", IN_DEF
+            + "super.f(1", IN_DEF + "super.f(1,2)", IN_DEF + "super.F()",
+            IN_DEF + "super.f()()", IN_DEF + "a.super()", IN_DEF + "super.f+1", IN_DEF + "super=1", IN_DEF + "super.f=1");
+    }
+
     private static void oneComparison() {
         Script.sentence("E := S [ (== | <) S ]");
         allRight("1==2", "1<2", "1+2*3<4-5/6", "(1<2)<3", "1<(2<3)", "(1==2)==(3<4)", "X().h(1<2)<3");
-        allWrong(1, "1<2<3", "1==2==3", "1<2==3", "1==2<3", "1<2+3<4", "1==2*3==4", "(1<2<3)", "X().h(1<2<3)", "X(1==2==3)", "1<", "<1", "1==",
+        allWrong(1, "1<2<3", "1==2==3", "1<2==3", "1==2<3", "1<2+3<4", "1==2*3==4", "(1<2<3)", "X().h(1<2<3)", "X(1==2==3)", "1<", "<1",
+            "1==",
             "==1", "1<==2");
     }
 
@@ -328,7 +355,8 @@ public final class TextEdgesTest {
     private static void beforeTheSign() {
         Script.sentence("In P . NAME = E the last tokens before = are . NAME");
         allRight("a.b=1", "a.b.c=1", "a.b().c=1", "a.b(1).c=1", "(a).b=1", "(a+b).c=1", "X().b=1", "1.b=1", "none.b=1");
-        allWrong(1, "a.b()=1", "a.b(1)=1", "(a.b)=1", "(a)=1", "X()=1", "X=1", "1=1", "none=1", "a.B=1", "a.1=1", "a+b=1", "a b=1", "a+b.c=1",
+        allWrong(1, "a.b()=1", "a.b(1)=1", "(a.b)=1", "(a)=1", "X()=1", "X=1", "1=1", "none=1", "a.B=1", "a.1=1", "a+b=1", "a b=1",
+            "a+b.c=1",
             "a<b.c=1", "a.b=c=1", "a.b=c.d=1", "a=b=1");
     }
 
@@ -348,10 +376,14 @@ public final class TextEdgesTest {
 
     private static void fourParentheses() {
         Script.sentence("More than 4 parentheses open at one place of a line: the line is wrong.");
-        allRight("((((1))))", "((((1))))+((((1))))", "(((X())))", "(((a.b())))", "X(X(X(X())))", "a.b(a.b(a.b(a.b(1))))", "((((a)))).b=((((1))))",
-            "if ((((1)))):\n pass", IN_DEF + "return (((super.f())))", IN_DEF + "super.f(super.f(super.f(super.f())))", "(1)+(1)+(1)+(1)+(1)");
-        allWrong(1, "(((((1)))))", "((((1))))+(((((1)))))", "((((X()))))", "((((a.b()))))", "((((a.b(1)))))", "X(X(X(X(X()))))", "X(X(X(X(X(1)))))",
-            "a.b(a.b(a.b(a.b(a.b()))))", "(((((a))))).b=1", "a.b=(((((1)))))", "if (((((1))))):\n pass", "print (X((a.b((1)))))", "((((1+(2)))))");
+        allRight("((((1))))", "((((1))))+((((1))))", "(((X())))", "(((a.b())))", "X(X(X(X())))", "a.b(a.b(a.b(a.b(1))))",
+            "((((a)))).b=((((1))))",
+            "if ((((1)))):\n pass", IN_DEF + "return (((super.f())))", IN_DEF + "super.f(super.f(super.f(super.f())))",
+                "(1)+(1)+(1)+(1)+(1)");
+        allWrong(1, "(((((1)))))", "((((1))))+(((((1)))))", "((((X()))))", "((((a.b()))))", "((((a.b(1)))))", "X(X(X(X(X()))))",
+            "X(X(X(X(X(1)))))",
+            "a.b(a.b(a.b(a.b(a.b()))))", "(((((a))))).b=1", "a.b=(((((1)))))", "if (((((1))))):\n pass", "print (X((a.b((1)))))",
+                "((((1+(2)))))");
         allWrong(3, IN_DEF + "return ((((super.f()))))", IN_DEF + "super.f(super.f(super.f(super.f(super.f()))))");
     }
 
@@ -365,6 +397,11 @@ public final class TextEdgesTest {
         s.prints("if 1:\n if 0:\n  print 1\n print 2\nprint 3", 2, 3);
         s.prints("n=0\nwhile n<2:\n n=n+1\n if 0:\n  pass\n\n print n\nprint 9", 1, 2, 9);
         s.prints("class A:\n def f(s):\n  if 0:\n   pass\n\n  return 5\n def g(s):\n  return 6\nprint A().f()+A().g()", 11);
+        // From the deepest level back to the first, past an else line on each.
+        s.prints("if 1:\n if 1:\n  if 1:\n   if 1:\n    if 1:\n     if 1:\n      if 1:\n       if 1:\n        print 1\n       else:\n"
+            + "        pass\n      else:\n       pass\n"
+            + "     else:\n      pass\n    else:\n     pass\n   else:\n    pass\n  else:\n   pass\n else:\n  pass\nelse:\n pass\n"
+            + "print 2", 1, 2);
     }
 
     private static void firstIsNotIndented() {
@@ -378,8 +415,10 @@ public final class TextEdgesTest {
 
     private static void deeperAfterAnOpener() {
         Script.sentence("if V is an opener and L is not deeper than V");
-        allWrong(2, "if 1:\npass", "while 1:\npass", "try:\npass", "try:\nexcept e:\n pass", "class A:\npass", "if 1:\nif 1:\n pass", "if 1:\nelse:\n pass");
-        allWrong(3, "if 1:\n if 1:\n pass", "if 1:\n if 1:\npass", "class A:\n def f(s):\n pass", "class A:\n def f(s):\nb=1", "if 1:\n\npass",
+        allWrong(2, "if 1:\npass", "while 1:\npass", "try:\npass", "try:\nexcept e:\n pass", "class A:\npass", "if 1:\nif 1:\n pass",
+            "if 1:\nelse:\n pass");
+        allWrong(3, "if 1:\n if 1:\n pass", "if 1:\n if 1:\npass", "class A:\n def f(s):\n pass", "class A:\n def f(s):\nb=1",
+            "if 1:\n\npass",
             "if 1:\n  if 1:\n pass");
         allWrong(4, "if 1:\n pass\nelse:\npass", "try:\n pass\nexcept e:\npass", "if 1:\n\n\npass");
         allRight("if 1:\n pass", "if 1:\n        pass", "if 1:\n  if 1:\n   pass", "class A:\n  def f(s):\n     pass");
@@ -400,7 +439,8 @@ public final class TextEdgesTest {
     private static void backToALevel() {
         Script.sentence("if V is no opener and U is none or not as deep as L");
         allWrong(3, "if 1:\n  pass\n pass", "if 1:\n        pass\n       pass");
-        allWrong(4, "if 1:\n if 1:\n   pass\n  pass", "if 1:\n  if 1:\n    pass\n pass", "if 1:\n  if 1:\n    pass\n   pass", "if 1:\n  pass\n\n pass");
+        allWrong(4, "if 1:\n if 1:\n   pass\n  pass", "if 1:\n  if 1:\n    pass\n pass", "if 1:\n  if 1:\n    pass\n   pass",
+            "if 1:\n  pass\n\n pass");
         allWrong(6, "if 1:\n  pass\nelse:\n    if 1:\n      pass\n  pass");
         allRight("if 1:\n  pass\n  pass\npass", "if 1:\n  if 1:\n    pass\n  pass\npass", "if 1:\n  if 1:\n    pass\npass",
             "if 1:\n  pass\nelse:\n    pass\n    pass", "if 1:\n  pass\nif 1:\n pass");
@@ -412,7 +452,8 @@ public final class TextEdgesTest {
             "if 1:\n   pass\n\nelse:\n pass");
         allWrong(1, "else:\n pass");
         allWrong(2, "pass\nelse:\n pass", "if 1:\n else:\n  pass");
-        allWrong(3, "while 1:\n pass\nelse:\n pass", "class A:\n pass\nelse:\n pass", "if 1:\n pass\n else:\n  pass", "if 1:\n  pass\n else:\n  pass",
+        allWrong(3, "while 1:\n pass\nelse:\n pass", "class A:\n pass\nelse:\n pass", "if 1:\n pass\n else:\n  pass",
+            "if 1:\n  pass\n else:\n  pass",
             "\n\nelse:\n pass", "try:\n pass\nelse:\n pass");
         allWrong(4, "if 1:\n pass\npass\nelse:\n pass", "if 1:\n while 1:\n  pass\n else:\n  pass");
         allWrong(5, "if 1:\n pass\nelse:\n pass\nelse:\n pass", "try:\n pass\nexcept e:\n pass\nelse:\n pass");
@@ -420,7 +461,8 @@ public final class TextEdgesTest {
 
     private static void exceptLines() {
         Script.sentence("except unless U is a try line as deep as it");
-        allRight("try:\n pass\nexcept e:\n pass", "try:\n try:\n  pass\n except e:\n  pass\nexcept e:\n pass", "try:\n   pass\n\nexcept e:\n pass");
+        allRight("try:\n pass\nexcept e:\n pass", "try:\n try:\n  pass\n except e:\n  pass\nexcept e:\n pass",
+            "try:\n   pass\n\nexcept e:\n pass");
         allWrong(1, "except e:\n pass");
         allWrong(2, "pass\nexcept e:\n pass", "try:\n except e:\n  pass");
         allWrong(3, "if 1:\n pass\nexcept e:\n pass", "while 1:\n pass\nexcept e:\n pass", "class A:\n pass\nexcept e:\n pass",
@@ -432,13 +474,17 @@ public final class TextEdgesTest {
 
     private static void triesNeedAnExcept() {
         Script.sentence("A line that is not deeper than some try line T before it, .. is wrong unless it is an except line as deep as T");
-        allWrong(3, "try:\n pass\npass", "try:\n pass\nif 1:\n pass", "try:\n pass\ntry:\n pass\nexcept e:\n pass", "try:\n pass\nelse:\n pass",
+        allWrong(3, "try:\n pass\npass", "try:\n pass\nif 1:\n pass", "try:\n pass\ntry:\n pass\nexcept e:\n pass",
+            "try:\n pass\nelse:\n pass",
             "try:\n pass\na=1", "try:\n pass\nclass A:\n pass");
         allWrong(4, "if 1:\n try:\n  pass\n pass", "if 1:\n try:\n  pass\npass", "if 1:\n try:\n  pass\nelse:\n pass",
-            "if 1:\n try:\n  pass\nexcept e:\n pass", "try:\n try:\n  pass\nexcept e:\n pass", "try:\n if 1:\n  pass\npass", "try:\n pass\n\npass");
-        allWrong(5, IN_DEF + "try:\n   pass\n def g(s):\n  pass", IN_DEF + "try:\n   pass\na=1", "try:\n try:\n  if 1:\n   pass\nexcept e:\n pass");
+            "if 1:\n try:\n  pass\nexcept e:\n pass", "try:\n try:\n  pass\nexcept e:\n pass", "try:\n if 1:\n  pass\npass",
+                "try:\n pass\n\npass");
+        allWrong(5, IN_DEF + "try:\n   pass\n def g(s):\n  pass", IN_DEF + "try:\n   pass\na=1", "try:\n try:\n  if 1:\n   pass\n"
+            + "except e:\n pass");
         // A blank line is no such line, a deeper line neither, and an except line ends the wait.
-        allRight("try:\n pass\n\nexcept e:\n pass", "try:\n if 1:\n  pass\n pass\nexcept e:\n pass\npass", "try:\n pass\nexcept e:\n pass\npass\npass",
+        allRight("try:\n pass\n\nexcept e:\n pass", "try:\n if 1:\n  pass\n pass\nexcept e:\n pass\npass",
+            "try:\n pass\nexcept e:\n pass\npass\npass",
             "if 1:\n try:\n  pass\n except e:\n  pass\nelse:\n pass");
     }
 
@@ -446,9 +492,12 @@ public final class TextEdgesTest {
         Script.sentence("class is wrong inside a class block.");
         allWrong(2, "class A:\n class B:\n  pass");
         allWrong(3, "class A:\n pass\n class B:\n  pass", IN_DEF + "class B:\n   pass", "if 1:\n class A:\n  class B:\n   pass");
-        allWrong(4, IN_DEF + "if 1:\n   class B:\n    pass", "if 1:\n class A:\n  def f(s):\n   class B:\n    pass", "class A:\n def f(s):\n  pass\n class B:\n  pass");
+        allWrong(4, IN_DEF + "if 1:\n   class B:\n    pass", "if 1:\n class A:\n  def f(s):\n   class B:\n    pass",
+            "class A:\n def f(s):\n  pass\n class B:\n  pass");
         allWrong(6, "if 1:\n if 1:\n  class A:\n   def f(s):\n    while 1:\n     class B:\n      pass");
-        allRight("class A:\n pass\nclass B:\n pass", "if 1:\n class A:\n  pass\n class B:\n  pass\nelse:\n class A:\n  pass", "while 0:\n class A:\n  pass",
+        allWrong(8, "class A:\n def f(s):\n  if 1:\n   if 1:\n    if 1:\n     if 1:\n      if 1:\n       class B:\n        pass");
+        allRight("class A:\n pass\nclass B:\n pass", "if 1:\n class A:\n  pass\n class B:\n  pass\nelse:\n class A:\n  pass",
+            "while 0:\n class A:\n  pass",
             "try:\n class A:\n  pass\nexcept e:\n class A:\n  pass", "class A:\n def f(s):\n  pass\nclass B:\n pass");
     }
 
@@ -466,7 +515,8 @@ public final class TextEdgesTest {
     private static void defsStandThereAlone() {
         Script.sentence("def stands nowhere else");
         allWrong(1, "def f(s):\n pass");
-        allWrong(2, "if 1:\n def f(s):\n  pass", "while 1:\n def f(s):\n  pass", "try:\n def f(s):\n  pass\nexcept e:\n pass", "pass\ndef f(s):\n pass");
+        allWrong(2, "if 1:\n def f(s):\n  pass", "while 1:\n def f(s):\n  pass", "try:\n def f(s):\n  pass\nexcept e:\n pass",
+            "pass\ndef f(s):\n pass");
         allWrong(3, IN_DEF + "def g(s):\n   pass", "class A:\n pass\ndef f(s):\n pass");
         allWrong(4, IN_DEF + "if 1:\n   def g(s):\n    pass");
         allRight("class A:\n def f(s):\n  pass\n def f(s):\n  pass", "if 1:\n class A:\n  def f(s):\n   pass");
@@ -483,6 +533,7 @@ public final class TextEdgesTest {
             Script.isRight(IN_DEF + "if 1:\n   " + line.replace("\n", "\n   "));
             Script.isRight(IN_DEF + "try:\n   pass\n  except e:\n   " + line.replace("\n", "\n   "));
         }
+        Script.isRight(IN_DEF + "if 1:\n   if 1:\n    if 1:\n     if 1:\n      if 1:\n       if 1:\n        return super.f()");
         Script.isWrong("class A:\n a=super.f()", 2);
         Script.isWrong(IN_DEF + "pass\n a=super.f()", 4);
         Script.isWrong(IN_DEF + "pass\n return 1", 4);
@@ -502,11 +553,13 @@ public final class TextEdgesTest {
         allWrong(4, "pass\ntry:\n pass", "try:\n if 1:\n  pass", "if 1:\n try:\n  pass", "try:\n pass\n");
         allWrong(6, "try:\n try:\n  pass\n except e:\n  pass", "try:\n pass\n\n        \n");
         allWrong(8, "try:\n pass\nexcept e:\n pass\nif 1:\n try:\n  pass");
-        allRight("try:\n pass\nexcept e:\n pass", "try:\n try:\n  pass\n except e:\n  pass\nexcept e:\n pass", "if 1:\n try:\n  pass\n except e:\n  pass");
+        allRight("try:\n pass\nexcept e:\n pass", "try:\n try:\n  pass\n except e:\n  pass\nexcept e:\n pass",
+            "if 1:\n try:\n  pass\n except e:\n  pass");
     }
 
     private static void numberOfTheWrongLine() {
-        Script.sentence("The number of the first wrong line is lines() plus its place in the chunk (1 for the first); the end counts as one more line.");
+        Script.sentence("The number of the first wrong line is lines() plus its place in the chunk (1 for the first); the end counts as "
+            + "one more line.");
         Script s = new Script();
         s.runs("1 1", HostedScript.WRONG, 1);
         s.runs("pass\n\n1 1\n2 2\n3 3", HostedScript.WRONG, 3);
